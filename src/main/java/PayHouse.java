@@ -565,12 +565,11 @@ public final class PayHouse {
         if (slips == null || !slips.concerns(person)) {
             return 0;
         }
-        Arrays.fill(sums, 0);
+        clearSums(slips.firstMonth, slips.lastMonth);
         for (int earlier = 0; earlier < run; earlier++) {
             addSlip(runs[earlier], person, -1);
         }
-        worker.begin(facts, person, slips.moment);
-        worker.takeVersions(versions, versionCount);
+        beginWork(person, slips.moment);
         for (int month = slips.firstMonth; month <= slips.lastMonth; month++) {
             for (int line = 0; line < ledger.lineCount; line++) {
                 sums[month * LINES_MAX + line] += worker.dueAmount(month, line);
@@ -590,13 +589,23 @@ public final class PayHouse {
                 count++;
             }
         }
-        int end = Math.min((slips.lastMonth + 1) * LINES_MAX, sums.length);
-        for (int key = slips.firstMonth * LINES_MAX; key < end; key++) {
-            if (sums[key] != 0) {
-                count++;
+        for (int month = slips.firstMonth; month <= slips.lastMonth; month++) {
+            for (int line = 0; line < ledger.lineCount; line++) {
+                if (sums[month * LINES_MAX + line] != 0) {
+                    count++;
+                }
             }
         }
         return count;
+    }
+
+    // Only these months of the known lines are looked at afterwards.
+    private void clearSums(int firstMonth, int lastMonth) {
+        for (int month = firstMonth; month <= lastMonth; month++) {
+            for (int line = 0; line < ledger.lineCount; line++) {
+                sums[month * LINES_MAX + line] = 0;
+            }
+        }
     }
 
     private void addSlip(Run slips, int person, int factor) {
@@ -793,7 +802,7 @@ public final class PayHouse {
     }
 
     private int wrongSettlements(int person) {
-        Arrays.fill(sums, 0);
+        clearSums(0, MONTHS - 1);
         for (int run = 0; run < runCount; run++) {
             addSlip(runs[run], person, 1);
         }
@@ -830,7 +839,9 @@ public final class PayHouse {
         if (books.filingCounts[authority] == 0) {
             return false;
         }
-        Arrays.fill(sums, 0);
+        for (int month = 0; month < MONTHS; month++) {
+            sums[month] = 0;
+        }
         for (int run = 0; run < books.runsFiled[authority] && run < runCount; run++) {
             Run slips = runs[run];
             for (int entry = slips.starts[0]; entry < slips.starts[PERSONS_MAX]; entry++) {

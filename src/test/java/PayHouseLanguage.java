@@ -1,0 +1,200 @@
+import java.io.IOException;
+import java.lang.reflect.Constructor;
+import java.lang.reflect.Field;
+import java.lang.reflect.Method;
+import java.lang.reflect.Modifier;
+import java.nio.charset.StandardCharsets;
+import java.nio.file.Files;
+import java.nio.file.Path;
+import java.util.ArrayList;
+import java.util.Arrays;
+import java.util.List;
+import java.util.Set;
+import java.util.TreeSet;
+import java.util.regex.Matcher;
+import java.util.regex.Pattern;
+
+/** What of LANGUAGE.md can be seen in the program's text and class files. Argument: the text's path. */
+public final class PayHouseLanguage {
+    private static final String[] FACE = {
+        "int type(long)", "int outputByte(int)", "int load(int)", "int faultKind()",
+        "int versionInForce(int,int)", "int definitions(int)", "long definedName(int,int)",
+        "int lineKind(int,long)", "int write(int)", "long value(int,long,int,int)",
+        "long valueIf(int,long,int,long,int,long)", "int explained(int,long,int)",
+        "int explainedMonth(int,long,int,int)", "long explainedName(int,long,int,int)", "int person()",
+        "int moment()", "int tell(int,long,int,int,int,int)", "int withdraw(int,long,int,int,int)",
+        "int takeBack(int)", "int tellText()", "long factAt(int,long,int,int)",
+        "int sourceAt(int,long,int,int)", "int pieces(int,long,int)", "int changes(int,long,int)",
+        "int firstChange(int,int,int)", "int presentMonth()", "int setReach(int)", "int run()",
+        "int correct(int)", "int entries(int,int)", "long entryAt(int,int,int,int)", "long net(int,int)",
+        "long lateNet(int,int)", "long settled(int,long,int,int)", "int again(int,int)",
+        "long setProtected(int,long)", "int withhold(int,int,long,long)", "long restOf(int)",
+        "long advance(int,long)", "long claim(int)", "long payout(int,int)", "long comeBack(int,int)",
+        "long owed(int)", "int file(int)", "long filed(int,int,int)", "long remit(int,long)",
+        "long balance(int)", "long checksum()", "double meanNet(int)", "float lateShare()", "int errors()"
+    };
+    private static final String[] FORBIDDEN = {
+        "\\btry\\b", "\\bcatch\\b", "\\bfinally\\b", "\\bsynchronized\\b", "\\bassert\\b", "->", "::",
+        "Exact\\b", "\\bSystem\\.(?!arraycopy)", "\\bpackage\\b", "\\bString\\b", "\\bThread\\b", "\\bObject\\b",
+        "\\bequals\\b(?!N)", "\\bhashCode\\b", "\\btoString\\b", "\\bHashMap\\b", "\\bnative\\b", "\\bvolatile\\b",
+        "\"\\s*\\+", "\\+\\s*\"", "@"
+    };
+
+    private static int wrong = 0;
+
+    public static void main(String[] args) throws IOException {
+        Path path = Path.of(args.length > 0 ? args[0] : "src/main/java/PayHouse.java");
+        String text = Files.readString(path, StandardCharsets.ISO_8859_1);
+        signs(text);
+        String code = withoutComments(text);
+        words(code);
+        exceptions(code);
+        lengths(text);
+        face();
+        classes();
+        System.out.println(wrong == 0 ? "the program keeps to the language" : wrong + " faults of language");
+        if (wrong != 0) {
+            System.exit(1);
+        }
+    }
+
+    private static void fault(String what) {
+        wrong++;
+        System.out.println(what);
+    }
+
+    private static String withoutComments(String text) {
+        return text.replaceAll("(?s)/\\*.*?\\*/", "").replaceAll("//[^\n]*", "");
+    }
+
+    private static void signs(String text) {
+        for (int i = 0; i < text.length(); i++) {
+            char sign = text.charAt(i);
+            if (sign != '\n' && (sign < 32 || sign > 126)) {
+                fault("the sign " + (int) sign + " at " + i);
+            }
+        }
+    }
+
+    private static void words(String code) {
+        for (String pattern : FORBIDDEN) {
+            Matcher matcher = Pattern.compile(pattern).matcher(code);
+            if (matcher.find()) {
+                fault("the text holds " + matcher.group());
+            }
+        }
+        Matcher imports = Pattern.compile("import ([\\w.*]+);").matcher(code);
+        Set<String> allowed = Set.of("java.util.Arrays", "java.util.NoSuchElementException");
+        while (imports.find()) {
+            if (!allowed.contains(imports.group(1))) {
+                fault("import of " + imports.group(1));
+            }
+        }
+        Matcher library = Pattern.compile("\\b(Arrays|Math|Integer|Long)\\.(\\w+)").matcher(code);
+        Set<String> calls = Set.of("Arrays.copyOf", "Arrays.fill", "Math.min", "Math.max", "Math.abs", "Math.floorDiv");
+        while (library.find()) {
+            if (!calls.contains(library.group())) {
+                fault("the library's " + library.group());
+            }
+        }
+    }
+
+    private static void exceptions(String code) {
+        Matcher throwing = Pattern.compile("\\bthrow\\b[^;]*;").matcher(code);
+        Pattern form = Pattern.compile("throw new (IllegalStateException|IllegalArgumentException"
+                + "|IndexOutOfBoundsException|NoSuchElementException)\\(\"[^\"]*\"\\);");
+        while (throwing.find()) {
+            if (!form.matcher(throwing.group()).matches()) {
+                fault(throwing.group());
+            }
+        }
+    }
+
+    // Methods of the class stand 4 blanks in, those of the classes inside it 8.
+    private static void lengths(String text) {
+        String[] lines = text.split("\n");
+        for (int i = 0; i < lines.length; i++) {
+            Matcher head = Pattern.compile("( {4}| {8})\\w[^=;]*\\([^;]*\\{?").matcher(lines[i]);
+            if (head.matches()) {
+                String end = head.group(1) + "}";
+                int last = i;
+                while (last < lines.length && !lines[last].equals(end)) {
+                    last++;
+                }
+                if (last - i > 60) {
+                    fault("the method at line " + (i + 1) + " has " + (last - i) + " lines");
+                }
+            }
+        }
+    }
+
+    private static void face() {
+        Set<String> due = new TreeSet<>(Arrays.asList(FACE));
+        Set<String> got = new TreeSet<>();
+        Set<String> publicNames = new TreeSet<>();
+        List<String> others = new ArrayList<>();
+        for (Method method : PayHouse.class.getDeclaredMethods()) {
+            if (Modifier.isPublic(method.getModifiers())) {
+                StringBuilder one = new StringBuilder(method.getReturnType() + " " + method.getName() + "(");
+                for (Class<?> type : method.getParameterTypes()) {
+                    one.append(one.charAt(one.length() - 1) == '(' ? "" : ",").append(type);
+                }
+                got.add(one.append(")").toString());
+                publicNames.add(method.getName());
+            } else {
+                others.add(method.getName());
+                if (!Modifier.isPrivate(method.getModifiers())) {
+                    fault("not private: " + method);
+                }
+            }
+        }
+        if (!got.equals(due)) {
+            fault("the face is " + got);
+        }
+        for (String other : others) {
+            if (publicNames.contains(other)) {
+                fault("a private method bears the name " + other);
+            }
+        }
+        for (Field field : PayHouse.class.getDeclaredFields()) {
+            boolean none = field.getName().equals("NONE");
+            if (none != Modifier.isPublic(field.getModifiers()) || !none && !Modifier.isPrivate(field.getModifiers())) {
+                fault("field " + field);
+            }
+        }
+        Constructor<?>[] constructors = PayHouse.class.getDeclaredConstructors();
+        if (constructors.length != 1 || !Modifier.isPublic(constructors[0].getModifiers())
+                || !Modifier.isFinal(PayHouse.class.getModifiers())) {
+            fault("the constructor, or a class that is not final");
+        }
+    }
+
+    private static void classes() {
+        List<Class<?>> all = new ArrayList<>(List.of(PayHouse.class.getDeclaredClasses()));
+        all.add(PayHouse.class);
+        if (all.size() > 12) {
+            fault(all.size() + " classes");
+        }
+        for (Class<?> one : all) {
+            int fields = 0;
+            for (Field field : one.getDeclaredFields()) {
+                boolean constant = Modifier.isStatic(field.getModifiers());
+                fields += constant ? 0 : 1;
+                if (constant && !Modifier.isFinal(field.getModifiers())) {
+                    fault("static " + field);
+                }
+            }
+            if (fields > 20) {
+                fault(one + " has " + fields + " fields");
+            }
+            for (Method method : one.getDeclaredMethods()) {
+                if (method.getParameterCount() > 7) {
+                    fault("too many parameters: " + method);
+                }
+            }
+            if (one != PayHouse.class && !Modifier.isStatic(one.getModifiers())) {
+                fault("not static: " + one);
+            }
+        }
+    }
+}
