@@ -164,14 +164,13 @@ public final class PayHouse {
         if (versionCount >= VERSIONS_MAX) {
             throw new IllegalStateException("there are 12 versions");
         }
-        latestFault = reader.read(text.bytes, text.length);
+        tokens.read(text.bytes, text.length);
+        text.length = 0;
+        latestFault = reader.read(tokens);
         if (latestFault != 0) {
-            text.length = 0;
             return -3 - reader.place;
         }
-        tokens.begin(text.bytes, text.length);
         tokens.writeTo(written);
-        text.length = 0;
         now++;
         Version version = reader.makeVersion(versionCount, month, now);
         version.text = Arrays.copyOf(written.bytes, written.length);
@@ -226,7 +225,7 @@ public final class PayHouse {
         needName(name);
         needMoment(moment);
         beginWork(person, moment);
-        return worker.workedOut(month, name);
+        return worker.cellValue(month, worker.definitionNamed(month, name));
     }
 
     public long valueIf(int person, long name, int month, long fact, int factMonth, long value)
@@ -239,7 +238,7 @@ public final class PayHouse {
         needRange(value, -AMOUNT_MAX, AMOUNT_MAX);
         beginWork(person, now);
         worker.suppose(fact, factMonth, value);
-        return worker.workedOut(month, name);
+        return worker.cellValue(month, worker.definitionNamed(month, name));
     }
 
     public int explained(int person, long name, int month)
@@ -265,7 +264,7 @@ public final class PayHouse {
         needMonth(month);
         needName(name);
         beginWork(person, now);
-        worker.workedOut(month, name);
+        worker.cellValue(month, worker.definitionNamed(month, name));
     }
 
     private int askedAt(int index) {
@@ -333,12 +332,13 @@ public final class PayHouse {
     }
 
     public int tellText() {
-        int count = facts.countStatements(text.bytes, text.length, personCount);
+        tokens.read(text.bytes, text.length);
+        text.length = 0;
+        int count = facts.countStatements(tokens, personCount);
         if (count >= 0) {
-            facts.makeStatements(text.bytes, text.length, count, now);
+            facts.makeStatements(tokens, count, now);
             now += count;
         }
-        text.length = 0;
         return count;
     }
 
@@ -531,22 +531,19 @@ public final class PayHouse {
     private void settleMonths(Run made, int person) {
         beginWork(person, now);
         for (int month = made.firstMonth; month <= made.lastMonth; month++) {
+            // A line that is not in the version has the due amount 0: if its settled amount is 0
+            // too, this makes no entry, so that every known line can be asked.
             for (int rank = 0; rank < ledger.lineCount; rank++) {
-                settleLine(person, month, ledger.ranked[rank]);
+                int line = ledger.ranked[rank];
+                long due = worker.cellValue(month, worker.definitionOf(month, line));
+                int place = Ledger.placeOf(line, person, month);
+                long difference = due - ledger.amounts[place];
+                if (difference != 0) {
+                    ledger.amounts[place] = due;
+                    ledger.addEntry(month, line, difference);
+                    books.bookEntry(ledger.lineKinds[line], difference);
+                }
             }
-        }
-    }
-
-    // A line that is not in the version has the due amount 0: if its settled amount is 0 too, this
-    // makes no entry, so that every known line can be asked.
-    private void settleLine(int person, int month, int line) {
-        long due = worker.dueAmount(month, line);
-        int place = Ledger.placeOf(line, person, month);
-        long difference = due - ledger.amounts[place];
-        if (difference != 0) {
-            ledger.amounts[place] = due;
-            ledger.addEntry(month, line, difference);
-            books.bookEntry(ledger.lineKinds[line], difference);
         }
     }
 
@@ -572,7 +569,8 @@ public final class PayHouse {
         beginWork(person, slips.moment);
         for (int month = slips.firstMonth; month <= slips.lastMonth; month++) {
             for (int line = 0; line < ledger.lineCount; line++) {
-                sums[month * LINES_MAX + line] += worker.dueAmount(month, line);
+                sums[month * LINES_MAX + line] +=
+                        worker.cellValue(month, worker.definitionOf(month, line));
             }
         }
         return unmatched(slips, person);
@@ -819,10 +817,10 @@ public final class PayHouse {
     }
 
     private boolean readsAgain(Version version) {
-        if (reader.read(version.text, version.text.length) != 0) {
+        tokens.read(version.text, version.text.length);
+        if (reader.read(tokens) != 0) {
             return false;
         }
-        tokens.begin(version.text, version.text.length);
         tokens.writeTo(written);
         if (written.length != version.text.length) {
             return false;
@@ -1004,10 +1002,14 @@ public final class PayHouse {
         }
     }
 
-    /** Reads a text of rules or of facts token by token. */
+    /** The tokens of a text of rules or of facts, all read at once and then looked at one by one. */
     private static final class Tokens {
         private byte[] bytes;
         private int length;
+        private int end;
+        private final int[] kinds;
+        private final int[] starts;
+        private final long[] contents;
         private int at;
         int kind;
         int start;
@@ -1016,21 +1018,46 @@ public final class PayHouse {
 
         Tokens() {
             bytes = new byte[0];
+            kinds = new int[OUTPUT_MAX + 1];
+            starts = new int[OUTPUT_MAX + 1];
+            contents = new long[OUTPUT_MAX + 1];
         }
 
-        void begin(byte[] source, int sourceLength) {
+        void read(byte[] source, int sourceLength) {
             bytes = source;
-            length = Math.min(sourceLength, source.length);
-            at = 0;
+            length = Math.min(sourceLength, Math.min(source.length, OUTPUT_MAX));
+            end = 0;
+            kind = BAD;
+            for (int i = 0; i < kinds.length && kind != END; i++) {
+                readToken();
+                kinds[i] = kind;
+                starts[i] = start;
+                contents[i] = kind == NUMBER ? number : letters;
+            }
+            rewind();
+        }
+
+        void rewind() {
+            at = -1;
             next();
         }
 
         void next() {
-            for (int i = at; i < length && bytes[i] == ' '; i++) {
-                at = i + 1;
+            if (at < 0 || kind != END && at + 1 < kinds.length) {
+                at++;
             }
-            start = at;
-            int sign = signAt(at);
+            kind = kinds[at];
+            start = starts[at];
+            letters = contents[at];
+            number = (int) letters;
+        }
+
+        private void readToken() {
+            for (int i = end; i < length && bytes[i] == ' '; i++) {
+                end = i + 1;
+            }
+            start = end;
+            int sign = end < length ? bytes[end] & 255 : -1;
             if (sign < 0) {
                 kind = END;
             } else if (isLetter(sign)) {
@@ -1042,43 +1069,39 @@ public final class PayHouse {
             }
         }
 
-        private int signAt(int index) {
-            return index >= 0 && index < length ? bytes[index] & 255 : -1;
-        }
-
         private void readLetters() {
             letters = 0;
-            for (int i = at; i < length && isLetter(bytes[i] & 255); i++) {
+            for (int i = end; i < length && isLetter(bytes[i] & 255); i++) {
                 letters = letters << 8 | bytes[i] & 255;
-                at = i + 1;
-            }
-            if (at - start > 8) {
-                kind = BAD;
-                return;
+                end = i + 1;
             }
             int word = wordOf(letters);
-            kind = word < 0 ? NAME : WORD + word;
+            if (end - start > 8) {
+                kind = BAD;
+            } else {
+                kind = word < 0 ? NAME : WORD + word;
+            }
         }
 
         private void readDigits() {
             number = 0;
-            for (int i = at; i < length && isDigit(bytes[i] & 255); i++) {
+            for (int i = end; i < length && isDigit(bytes[i] & 255); i++) {
                 number = number * 10 + (bytes[i] & 255) - '0';
-                at = i + 1;
+                end = i + 1;
             }
-            kind = at - start > 9 ? BAD : NUMBER;
+            kind = end - start > 9 ? BAD : NUMBER;
         }
 
         private void readSign(int sign) {
-            boolean equalsNext = signAt(at + 1) == '=';
-            at++;
+            end++;
+            boolean equalsNext = end < length && bytes[end] == '=';
             switch (sign) {
                 case '<':
                 case '=':
                     kind = sign;
                     if (equalsNext) {
                         kind = sign == '<' ? LESS_EQUAL : SAME;
-                        at++;
+                        end++;
                     }
                     break;
                 case ';':
@@ -1098,13 +1121,15 @@ public final class PayHouse {
             }
         }
 
+        /** Writes the tokens out, of which none may be bad. */
         void writeTo(Text target) {
             target.length = 0;
-            boolean lettersBefore = false;
+            boolean plainBefore = false;
+            rewind();
             for (int turn = 0; turn <= OUTPUT_MAX && kind != END; turn++) {
                 boolean ofLetters = kind == NAME || kind >= WORD && kind < WORD + WORDS.length;
                 boolean plain = ofLetters || kind == NUMBER;
-                if (plain && lettersBefore) {
+                if (plain && plainBefore) {
                     target.put(' ');
                 }
                 if (ofLetters) {
@@ -1112,19 +1137,26 @@ public final class PayHouse {
                 } else if (plain) {
                     target.putNumber(number);
                 } else {
-                    for (int i = start; i < at && i < length; i++) {
-                        target.put(bytes[i] & 255);
-                    }
+                    writeSign(target);
                 }
-                lettersBefore = plain;
+                plainBefore = plain;
                 next();
+            }
+        }
+
+        private void writeSign(Text target) {
+            if (kind == LESS_EQUAL || kind == SAME) {
+                target.put(kind == SAME ? '=' : '<');
+                target.put('=');
+            } else {
+                target.put(kind);
             }
         }
     }
 
     /** Reads a text of rules, finds its first fault, and makes steps of its definitions. */
     private static final class RuleReader {
-        private final Tokens tokens;
+        private Tokens tokens;
         int place;
         private int secondPlace;
         private int open;
@@ -1146,7 +1178,6 @@ public final class PayHouse {
         private final int[] hangsOn;
 
         RuleReader() {
-            tokens = new Tokens();
             names = new long[DEFINITIONS_MAX];
             places = new int[DEFINITIONS_MAX];
             kinds = new int[DEFINITIONS_MAX];
@@ -1162,7 +1193,8 @@ public final class PayHouse {
         }
 
         /** Answers the kind of the fault, whose place is told by place, or 0. */
-        int read(byte[] source, int length) {
+        int read(Tokens source) {
+            tokens = source;
             place = 0;
             secondPlace = NO_PLACE;
             open = 0;
@@ -1170,9 +1202,10 @@ public final class PayHouse {
             size = 0;
             referenceCount = 0;
             factCount = 0;
-            tokens.begin(source, length);
-            if (!readDefinitions()) {
-                return 1;
+            for (int turn = 0; turn < OUTPUT_MAX && tokens.kind != END; turn++) {
+                if (!readDefinition()) {
+                    return 1;
+                }
             }
             resolveReferences();
             if (secondPlace != NO_PLACE) {
@@ -1198,15 +1231,6 @@ public final class PayHouse {
             version.factNames = Arrays.copyOf(factNames, factCount);
             version.rankFacts();
             return version;
-        }
-
-        private boolean readDefinitions() {
-            for (int turn = 0; turn < OUTPUT_MAX && tokens.kind != END; turn++) {
-                if (!readDefinition()) {
-                    return false;
-                }
-            }
-            return true;
         }
 
         private boolean readDefinition() {
@@ -1281,7 +1305,9 @@ public final class PayHouse {
         }
 
         private void noteSecond(int where) {
-            secondPlace = Math.min(secondPlace, where);
+            if (where < secondPlace) {
+                secondPlace = where;
+            }
         }
 
         private int addStep(int op, int arg) {
@@ -1736,17 +1762,18 @@ public final class PayHouse {
             supposedValue = value;
         }
 
-        long workedOut(int month, long name) {
+        int definitionNamed(int month, long name) {
             Version version = versions[month];
-            return version == null ? 0 : cellValue(month, version.indexOf(name));
+            return version == null ? -1 : version.indexOf(name);
         }
 
-        long dueAmount(int month, int line) {
+        int definitionOf(int month, int line) {
             Version version = versions[month];
-            return version == null ? 0 : cellValue(month, version.definitionsOfLines[line]);
+            return version == null ? -1 : version.definitionsOfLines[line];
         }
 
-        private long cellValue(int month, int definition) {
+        /** Answers the value of a definition of the month's version, or 0 if there is none. */
+        long cellValue(int month, int definition) {
             if (definition < 0) {
                 return 0;
             }
@@ -1813,64 +1840,75 @@ public final class PayHouse {
                     push(bandsOf(pop(), version, step));
                     next = step + arg + 2;
                     break;
+                case OP_NUMBER:
+                    push(arg);
+                    break;
                 case OP_MONTH:
                     push(month);
                     break;
+                case OP_JUMP:
+                case OP_JUMP_UNLESS:
+                case OP_OR:
+                case OP_AND:
+                    next = leaps(version.ops[step]) ? arg : next;
+                    break;
                 default:
-                    next = doPlainStep(version.ops[step], arg, next);
+                    combine(version.ops[step], pop());
             }
             waitingSteps[waiting] = next;
         }
 
-        private int doPlainStep(int op, int arg, int next) {
-            switch (op) {
-                case OP_NUMBER:
-                    push(arg);
-                    return next;
-                case OP_JUMP:
-                    return arg;
-                case OP_JUMP_UNLESS:
-                    return pop() == 0 ? arg : next;
-                case OP_OR:
-                    return keepsTest(1) ? arg : next;
-                case OP_AND:
-                    return keepsTest(0) ? arg : next;
-                case OP_NEGATE:
-                    push(-pop());
-                    return next;
-                case OP_NOT:
-                    push(1 - pop());
-                    return next;
-                case OP_PART:
-                    long divisor = pop();
-                    long factor = pop();
-                    push(partOf(pop(), factor, divisor));
-                    return next;
-                default:
-                    long right = pop();
-                    push(combined(op, pop(), right));
-                    return next;
+        // A test that is known by its left part keeps this answer; another one goes on without it.
+        private boolean leaps(int op) {
+            if (op == OP_JUMP) {
+                return true;
             }
+            boolean so = pop() != 0;
+            if (op == OP_JUMP_UNLESS) {
+                return !so;
+            }
+            boolean known = so == (op == OP_OR);
+            if (known) {
+                push(so ? 1 : 0);
+            }
+            return known;
         }
 
-        private static long combined(int op, long left, long right) {
+        private void combine(int op, long right) {
             switch (op) {
+                case OP_NEGATE:
+                    push(-right);
+                    break;
+                case OP_NOT:
+                    push(1 - right);
+                    break;
                 case OP_ADD:
-                    return sumOf(left, right);
+                    push(sumOf(pop(), right));
+                    break;
                 case OP_SUBTRACT:
-                    return sumOf(left, -right);
+                    push(sumOf(pop(), -right));
+                    break;
                 case OP_MULTIPLY:
-                    return productOf(left, right);
+                    push(productOf(pop(), right));
+                    break;
+                case OP_PART:
+                    long factor = pop();
+                    push(quotientOf(productOf(pop(), factor), right));
+                    break;
                 case OP_MIN:
-                    return Math.min(left, right);
+                    push(Math.min(pop(), right));
+                    break;
                 case OP_MAX:
-                    return Math.max(left, right);
+                    push(Math.max(pop(), right));
+                    break;
                 case OP_LESS:
-                    return left < right ? 1 : 0;
+                    push(pop() < right ? 1 : 0);
+                    break;
                 case OP_LESS_EQUAL:
-                    return left <= right ? 1 : 0;
+                    push(pop() <= right ? 1 : 0);
+                    break;
                 default:
-                    return left == right ? 1 : 0;
+                    push(pop() == right ? 1 : 0);
             }
         }
 
@@ -1889,16 +1927,6 @@ public final class PayHouse {
             return stack[top];
         }
 
-        // A test that has this answer is known by its left part; another one goes on without it.
-        private boolean keepsTest(long answer) {
-            long left = pop();
-            if (left == answer) {
-                push(left);
-                return true;
-            }
-            return false;
-        }
-
         private boolean pushCell(int month, int definition) {
             int cell = month * DEFINITIONS_MAX + definition;
             if (cellStamps[cell] != stamp) {
@@ -1910,8 +1938,7 @@ public final class PayHouse {
         }
 
         private boolean pushLast(int month, long name) {
-            Version version = month == 0 ? null : versions[month - 1];
-            int definition = version == null ? -1 : version.indexOf(name);
+            int definition = month == 0 ? -1 : definitionNamed(month - 1, name);
             if (definition < 0) {
                 push(0);
                 return true;
@@ -1922,8 +1949,7 @@ public final class PayHouse {
         private boolean pushYear(int month, long name) {
             long sum = 0;
             for (int before = month - month % YEAR_MONTHS; before < month; before++) {
-                Version version = versions[before];
-                int definition = version == null ? -1 : version.indexOf(name);
+                int definition = definitionNamed(before, name);
                 if (definition >= 0) {
                     int cell = before * DEFINITIONS_MAX + definition;
                     if (cellStamps[cell] != stamp) {
@@ -2000,12 +2026,12 @@ public final class PayHouse {
             return version == null ? 0 : version.factNames[asked % FACTS_MAX];
         }
 
-        private static long within(long number) {
-            return Math.max(-VALUE_MAX, Math.min(VALUE_MAX, number));
-        }
-
         private static long sumOf(long left, long right) {
-            return within(left + right);
+            long sum = left + right;
+            if (sum > VALUE_MAX) {
+                return VALUE_MAX;
+            }
+            return sum < -VALUE_MAX ? -VALUE_MAX : sum;
         }
 
         private static long productOf(long left, long right) {
@@ -2018,11 +2044,9 @@ public final class PayHouse {
             return left * right;
         }
 
-        private static long partOf(long amount, long factor, long divisor) {
-            if (divisor <= 0) {
-                return 0;
-            }
-            return Math.floorDiv(2 * productOf(amount, factor) + divisor, 2 * divisor);
+        // Rounded to the nearest whole number, halves up.
+        private static long quotientOf(long number, long divisor) {
+            return divisor <= 0 ? 0 : Math.floorDiv(2 * number + divisor, 2 * divisor);
         }
     }
 
@@ -2057,12 +2081,11 @@ public final class PayHouse {
         private int count;
         // Counts those that take back too, which concern the limit but have no place in the list.
         int made;
-        private final Tokens tokens;
+        private Tokens tokens;
         private final Statement draft;
 
         Facts() {
             statements = new Statement[STATEMENTS_MAX];
-            tokens = new Tokens();
             draft = new Statement(0, 0, 0, 0, 0);
         }
 
@@ -2132,8 +2155,8 @@ public final class PayHouse {
         }
 
         /** Answers how many statements the text makes, or -3 less the place of its fault. */
-        int countStatements(byte[] source, int length, int persons) {
-            tokens.begin(source, length);
+        int countStatements(Tokens source, int persons) {
+            tokens = source;
             int found = 0;
             for (int turn = 0; turn <= STATEMENTS_MAX && tokens.kind != END; turn++) {
                 if (made + found >= STATEMENTS_MAX || !readStatement(draft, persons)) {
@@ -2144,8 +2167,9 @@ public final class PayHouse {
             return found;
         }
 
-        void makeStatements(byte[] source, int length, int number, int moment) {
-            tokens.begin(source, length);
+        void makeStatements(Tokens source, int number, int moment) {
+            tokens = source;
+            tokens.rewind();
             for (int i = 1; i <= number; i++) {
                 Statement statement = new Statement(0, 0, 0, 0, 0);
                 readStatement(statement, PERSONS_MAX);

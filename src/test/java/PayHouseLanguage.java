@@ -9,7 +9,9 @@ import java.nio.file.Path;
 import java.util.ArrayList;
 import java.util.Arrays;
 import java.util.List;
+import java.util.Map;
 import java.util.Set;
+import java.util.TreeMap;
 import java.util.TreeSet;
 import java.util.regex.Matcher;
 import java.util.regex.Pattern;
@@ -50,6 +52,7 @@ public final class PayHouseLanguage {
         words(code);
         exceptions(code);
         lengths(text);
+        new Depths(code).check();
         face();
         classes();
         System.out.println(wrong == 0 ? "the program keeps to the language" : wrong + " faults of language");
@@ -126,6 +129,83 @@ public final class PayHouseLanguage {
                 }
             }
         }
+    }
+
+    /** How deep calls go that are no recursion: methods by their names, those of one recursion as one. */
+    private static final class Depths {
+        private static final int MOST = 8;
+        private final Map<String, Set<String>> calls = new TreeMap<>();
+        private final Map<String, List<String>> known = new TreeMap<>();
+
+        Depths(String code) {
+            Pattern heads = Pattern.compile("(?m)^( {4}| {8})(?!static final class|private static final class)"
+                    + "(?:[\\w\\[\\]]+ )+(\\w+)\\([^;{]*\\{$");
+            Map<String, StringBuilder> bodies = new TreeMap<>();
+            Matcher head = heads.matcher(code);
+            while (head.find()) {
+                int end = code.indexOf("\n" + head.group(1) + "}", head.end());
+                bodies.computeIfAbsent(head.group(2), name -> new StringBuilder()).append(code, head.end(), end);
+            }
+            Pattern call = Pattern.compile("(Math\\.|Arrays\\.)?\\b(\\w+)\\(");
+            for (Map.Entry<String, StringBuilder> one : bodies.entrySet()) {
+                Set<String> called = new TreeSet<>();
+                Matcher matcher = call.matcher(one.getValue());
+                while (matcher.find()) {
+                    if (matcher.group(1) != null) {
+                        called.add("the library");
+                    } else if (bodies.containsKey(matcher.group(2))) {
+                        called.add(matcher.group(2));
+                    }
+                }
+                calls.put(one.getKey(), called);
+            }
+            calls.put("the library", Set.of());
+        }
+
+        void check() {
+            int methods = calls.size() - 1;
+            if (methods < 150) {
+                fault("only " + methods + " methods were found");
+            }
+            for (String name : calls.keySet()) {
+                List<String> path = deepest(name);
+                if (path.size() > MOST) {
+                    fault("calls are open at once: " + path);
+                }
+            }
+        }
+
+        private boolean reaches(String from, String to, Set<String> seen) {
+            for (String next : calls.get(from)) {
+                if (next.equals(to) || seen.add(next) && reaches(next, to, seen)) {
+                    return true;
+                }
+            }
+            return false;
+        }
+
+        private List<String> deepest(String name) {
+            Set<String> together = new TreeSet<>(Set.of(name));
+            for (String other : calls.keySet()) {
+                if (reaches(name, other, new TreeSet<>()) && reaches(other, name, new TreeSet<>())) {
+                    together.add(other);
+                }
+            }
+            List<String> best = List.of();
+            for (String one : together) {
+                for (String next : calls.get(one)) {
+                    if (!together.contains(next)) {
+                        List<String> path = known.containsKey(next) ? known.get(next) : deepest(next);
+                        known.put(next, path);
+                        best = path.size() > best.size() ? path : best;
+                    }
+                }
+            }
+            List<String> all = new ArrayList<>(List.of(name));
+            all.addAll(best);
+            return all;
+        }
+
     }
 
     private static void face() {

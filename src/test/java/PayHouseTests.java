@@ -355,6 +355,10 @@ public final class PayHouseTests {
         fault("a=" + times("(", 10) + "-1", 1, 12);
         fault("a=" + times("(", 10) + "bands", 1, 17);
         fault("a=" + times("(", 10) + "part(", 1, 16);
+        fine("a=if " + times("[1<2] and [[1<2]] or ", 20) + "1<2 then 1 else 2;");
+        fine("a=" + times("min(1,max(1,part(1,2,bands(3,4))))+", 12) + "1;");
+        fine("a=" + times("(if 1<2 then 1 else 2)+", 20) + "1;");
+        fine("a=" + times("-1--1+", 20) + "1;");
         fine("a=(1)+(1)*(1)+" + times("(1)+", 20) + "-1;");
         fine("a=-1*-1*-1*-1*-1*-1*-1*-1*-1*-1*-1*-1-1;");
         fine("a=if not 1<2 or not 1<2 or not 1<2 or not 1<2 or not 1<2 or not 1<2 or not 1<2 or "
