@@ -687,6 +687,25 @@ public final class PayHouseTests {
         PayHouse y = house(many + ";");
         isLong("many", y.explained(0, n("a"), 59), 60 * 78);
         isLong("the last one", y.explainedName(0, n("a"), 59, 60 * 78 - 1), n("zb"));
+        PayHouse z = new PayHouse();
+        z.person();
+        for (int version = 0; version < 12; version++) {
+            isLong("a version with 90 facts", loaded(z, version, manyFacts(version)), version);
+        }
+        isLong("all facts", z.explained(0, n("a"), 30), 90);
+        isLong("the last one", z.explainedName(0, n("a"), 4, 89), n("z"));
+        isLong("errors", z.errors(), 0);
+    }
+
+    private static String manyFacts(int version) {
+        StringBuilder many = new StringBuilder("a=0");
+        for (int i = 0; i < 26; i++) {
+            many.append("+fact ").append((char) ('a' + i));
+        }
+        for (int i = 0; i < 64; i++) {
+            many.append("+fact ").append((char) ('a' + i % 8)).append((char) ('a' + (i / 8 + version) % 26));
+        }
+        return many.toString().replace("=0+", "=") + ";";
     }
 
     private static void explainedMonth() {
@@ -1587,5 +1606,98 @@ public final class PayHouseTests {
             }
         }
         isLong("errors", x.errors(), 0);
+        great();
+        tampered();
+    }
+
+    // As many lines, persons and runs as there can be, and many entries.
+    private static void great() {
+        PayHouse x = new PayHouse();
+        for (int i = 0; i < 6; i++) {
+            x.person();
+        }
+        for (int run = 0; run < 60; run++) {
+            if (run % 5 == 0) {
+                char second = (char) ('o' + run / 5);
+                StringBuilder rules = new StringBuilder();
+                for (int i = 0; i < 16; i++) {
+                    String name = "" + (char) ('c' + i % 5) + second + (char) ('a' + i);
+                    rules.append(i % 2 == 0 ? "pay " : "hold 2").append(name).append("=fact h+last ");
+                    rules.append(name).append("+year ").append(name).append("+1;");
+                }
+                isLong("a version", loaded(x, 0, rules.toString()), run / 5);
+            }
+            x.tell(run % 6, n("h"), run % 3, 0, 59, run * 100);
+            isLong("run", x.run(), run);
+        }
+        for (int run = 60; run < 90; run++) {
+            isLong("correct", x.correct(run % 6), run);
+        }
+        int all = 0;
+        for (int run = 0; run < 90; run++) {
+            for (int person = 0; person < 6; person++) {
+                all += x.entries(run, person);
+            }
+        }
+        isLong("many entries", all > 80000 ? 1 : 0, 1);
+        isLong("errors of many", x.errors(), 0);
+    }
+
+    // What is always 0 is shown to be counted, by spoiling what the house holds.
+    private static void tampered() {
+        PayHouse x = house("pay a=fact h;hold 1 b=1;");
+        x.person();
+        loaded(x, 0, "pay a=fact h;hold 1 b=1;cost 2 c=2;");
+        x.tell(0, n("h"), 0, 0, 59, 10);
+        x.run();
+        x.run();
+        x.file(1);
+        x.file(2);
+        isLong("errors", x.errors(), 0);
+        long[] amounts = (long[]) held(held(x, "ledger"), "amounts");
+        amounts[1]++;
+        isLong("a settled amount", x.errors(), 1);
+        amounts[1]--;
+        long[] differences = (long[]) held(held(x, "ledger"), "differences");
+        differences[0]++;
+        isLong("an entry: what is settled, and the slips of both runs", x.errors(), 3);
+        isLong("an entry of the slip", x.again(0, 0), 2);
+        isLong("settled ahead of the slip", x.again(1, 0), 1);
+        isLong("another person", x.again(0, 1), 0);
+        differences[0]--;
+        Object first = ((Object[]) held(x, "versions"))[0];
+        byte[] text = (byte[]) held(first, "text");
+        text[4] = '=';
+        isLong("a version that cannot be read", x.errors(), 1);
+        text[4] = 'a';
+        loaded(x, 9, "z=10;");
+        byte[] number = (byte[]) held(((Object[]) held(x, "versions"))[2], "text");
+        number[2] = '0';
+        isLong("a version that is not written the same", x.errors(), 1);
+        number[2] = '1';
+        long[] filings = (long[]) held(held(x, "books"), "filings");
+        filings[20 * 60 + 1]++;
+        filings[20 * 60 + 2]--;
+        isLong("a filing of one authority", x.errors(), 1);
+        filings[20 * 60 * 2]++;
+        isLong("filings of two", x.errors(), 2);
+        filings[20 * 60 + 1]--;
+        filings[20 * 60 + 2]++;
+        filings[20 * 60 * 2]--;
+        long[] claims = (long[]) held(held(x, "books"), "claims");
+        claims[0] += 5;
+        isLong("the balances", x.errors(), 1);
+        claims[0] -= 5;
+        isLong("errors", x.errors(), 0);
+    }
+
+    private static Object held(Object holder, String name) {
+        try {
+            java.lang.reflect.Field field = holder.getClass().getDeclaredField(name);
+            field.setAccessible(true);
+            return field.get(holder);
+        } catch (ReflectiveOperationException e) {
+            throw new IllegalStateException(name, e);
+        }
     }
 }
