@@ -93,6 +93,12 @@ public final class BoundsOfCalls {
         Bounds.same("the highest byte", x.type(0x8000000000000000L), 1);
         Bounds.same("all bytes 255", x.type(-1L), 9);
         Bounds.same("none of them begins a token", x.load(0), -3);
+        for (int sign = 1; sign < 256; sign++) {
+            PayHouse y = new PayHouse();
+            for (int place = 0; place < 8; place++) {
+                Bounds.same("the byte " + sign, y.type((long) sign << 8 * place), place + 1);
+            }
+        }
         Bounds.promise(3, "outputByte");
         Bounds.same("first", x.outputByte(0), 'a');
         Bounds.same("last", x.outputByte(11), ';');
@@ -427,6 +433,23 @@ public final class BoundsOfCalls {
         Bounds.same("the month 58", z.firstChange(1, 7, 8), 58);
         z.tell(1, n("k"), 2, 58, 59, 0);
         Bounds.same("the same value", z.firstChange(1, 8, 9), -1);
+        z.tell(1, n("k"), 2, 40, 59, 0);
+        z.tell(1, n("k"), 2, 30, 59, 0);
+        Bounds.same("the first month of the span", z.firstChange(1, 8, 10), 40);
+        Bounds.same("over two statements", z.firstChange(1, 8, 11), 30);
+        z.tell(1, n("k"), 2, 10, 59, 0);
+        z.takeBack(12);
+        z.tell(1, n("k"), 2, 25, 45, 0);
+        Bounds.same("in the middle", z.firstChange(1, 11, 14), 25);
+        z.tell(1, n("k"), 2, 20, 50, 0);
+        z.withdraw(1, n("k"), 2, 20, 27);
+        Bounds.same("in the middle of a span", z.firstChange(1, 14, 16), 25);
+        z.tell(1, n("m"), 0, 3, 5, 1);
+        z.tell(1, n("m"), 1, 2, 4, 1);
+        z.tell(1, n("m"), 2, 2, 5, 1);
+        Bounds.same("nothing at the first two", z.firstChange(1, 18, 19), -1);
+        z.tell(1, n("m"), 2, 2, 9, 1);
+        Bounds.same("behind what was told", z.firstChange(1, 19, 20), 6);
     }
 
     private static void runs() {

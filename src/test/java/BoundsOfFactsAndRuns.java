@@ -15,6 +15,8 @@ public final class BoundsOfFactsAndRuns {
         corrections();
         reach();
         slips();
+        manyLines();
+        runsAheadOfVersions();
         nets();
         belowNothing();
         claimsTake();
@@ -437,6 +439,60 @@ public final class BoundsOfFactsAndRuns {
         Bounds.same("then", x.payout(3, 0), 6);
     }
 
+    /** As many lines as 12 versions can have, each with an amount of its own. */
+    private static void manyLines() {
+        PayHouse x = Bounds.people(6);
+        for (int version = 0; version < 12; version++) {
+            StringBuilder rules = new StringBuilder();
+            for (int i = 0; i < 16; i++) {
+                rules.append(i % 2 == 0 ? "pay " : "hold " + i / 2 % 4).append(" q").append((char) ('a' + version))
+                        .append((char) ('a' + i)).append('=').append(100 * version + i + 1).append("+fact h;");
+            }
+            Bounds.same("load", Bounds.loaded(x, version, rules.toString()), version);
+        }
+        x.tell(5, n("h"), 0, 0, 59, 10000);
+        for (int i = 0; i < 13; i++) {
+            x.run();
+        }
+        for (int version = 0; version < 12; version++) {
+            for (int i = 0; i < 16; i++) {
+                long name = n("q" + (char) ('a' + version) + (char) ('a' + i));
+                int kind = i % 2 == 0 ? 0 : 1 + i / 2 % 4;
+                long due = 100 * version + i + 1;
+                Bounds.same("settled", x.settled(0, name, kind, version), due);
+                Bounds.same("settled for the last person", x.settled(5, name, kind, version), due + 10000);
+                Bounds.same("the month ahead", version == 0 ? 0 : x.settled(0, name, kind, version - 1), 0);
+                Bounds.same("the month behind", x.settled(0, name, kind, version + 1), version == 11 ? due : 0);
+                Bounds.same("the name", x.entryAt(version, 5, i, 1), name);
+                Bounds.same("the kind", x.entryAt(version, 5, i, 2), kind);
+                Bounds.same("the difference", x.entryAt(version, 5, i, 3), due + 10000);
+            }
+        }
+        Bounds.same("errors", x.errors(), 0);
+    }
+
+    private static void runsAheadOfVersions() {
+        PayHouse x = Bounds.people(2);
+        x.run();
+        x.run();
+        Bounds.same("no entries", x.entries(1, 0), 0);
+        Bounds.loaded(x, 1, "pay a=5+fact h;");
+        x.run();
+        Bounds.same("from the month 1 on", x.entries(2, 1), 2);
+        Bounds.same("not the month 0", x.settled(1, n("a"), 0, 0), 0);
+        Bounds.loaded(x, 0, "pay a=7;pay b=8;");
+        x.run();
+        Bounds.same("the month 0", x.settled(1, n("a"), 0, 0), 7);
+        Bounds.same("b in the month 0", x.settled(1, n("b"), 0, 0), 8);
+        Bounds.same("b behind", x.settled(1, n("b"), 0, 1), 0);
+        for (int run = 0; run < 4; run++) {
+            Bounds.same("again", x.again(run, 0) + x.again(run, 1), 0);
+        }
+        Bounds.same("as of the moment 0", x.value(0, n("a"), 1, 0), 0);
+        Bounds.same("as of the moment 1", x.value(0, n("a"), 0, 1), 0);
+        Bounds.same("errors", x.errors(), 0);
+    }
+
     // ---- payments
 
     private static void nets() {
@@ -601,12 +657,14 @@ public final class BoundsOfFactsAndRuns {
         done.withhold(0, 0, 4, 4);
         done.withhold(0, 0, 4, 4);
         done.withhold(0, 0, 4, 4);
+        done.tell(0, n("h"), 0, 2, 2, 7);
         done.run();
+        // 7 there of 12 wanted: 2 for each, and a cent for the first one that wants.
         Bounds.same("nothing is wanted", done.restOf(0), 0);
-        Bounds.same("2", done.restOf(1), 2);
-        Bounds.same("2", done.restOf(2), 2);
-        Bounds.same("2", done.restOf(3), 2);
-        Bounds.same("paid to creditors", done.balance(0), -12);
+        Bounds.same("3 of 4", done.restOf(1), 1);
+        Bounds.same("2 of 4", done.restOf(2), 2);
+        Bounds.same("2 of 4", done.restOf(3), 2);
+        Bounds.same("paid to creditors", done.balance(0), -13);
         PayHouse all = Bounds.ruled("pay a=999999999*8;");
         for (int i = 0; i < 8; i++) {
             all.withhold(0, 0, GREAT, GREAT);
@@ -769,12 +827,39 @@ public final class BoundsOfFactsAndRuns {
         Bounds.same("another authority's first", x.filed(1, 0, 59), 100);
         Bounds.refusedBy(x, Bounds.ELEMENT, "its second", y -> y.filed(1, 1, 0));
         Bounds.same("errors", x.errors(), 0);
+        manyFilings();
         for (int i = 5; i <= 20; i++) {
             Bounds.same("file", x.file(2), i);
         }
         Bounds.refusedBy(x, Bounds.STATE, "the 21st", y -> y.file(2));
         Bounds.same("the 20th is there", x.filed(2, 19, 59), 0);
         Bounds.refusedBy(x, Bounds.ELEMENT, "the 21st", y -> y.filed(2, 20, 0));
+        Bounds.same("errors", x.errors(), 0);
+    }
+
+    /** All filings that there can be, each with an amount of its own. */
+    private static void manyFilings() {
+        PayHouse x = Bounds.ruled("hold 0 a=fact h;cost 1 b=fact h*2;hold 2 c=fact h*3;cost 3 d=fact h*4;");
+        x.run();
+        x.setReach(0);
+        x.run();
+        x.setReach(1);
+        for (int i = 0; i < 20; i++) {
+            x.tell(0, n("h"), 0, 1, 1, (i + 1) * (i + 1));
+            x.correct(0);
+            for (int authority = 0; authority < 4; authority++) {
+                Bounds.same("file", x.file((authority + i) % 4), i + 1);
+            }
+        }
+        for (int authority = 0; authority < 4; authority++) {
+            int same = authority;
+            for (int i = 0; i < 20; i++) {
+                Bounds.same("filing " + i + " of " + same, x.filed(same, i, 1), (2 * i + 1) * (same + 1));
+                Bounds.same("another month", x.filed(same, i, 0) + x.filed(same, i, 2), 0);
+            }
+            Bounds.refusedBy(x, Bounds.STATE, "the 21st", y -> y.file(same));
+            Bounds.refusedBy(x, Bounds.ELEMENT, "the 21st", y -> y.filed(same, 20, 1));
+        }
         Bounds.same("errors", x.errors(), 0);
     }
 
@@ -801,9 +886,28 @@ public final class BoundsOfFactsAndRuns {
         x.file(1);
         x.setProtected(0, 5);
         balances(x, "nothing of money", -150, 107, -7, 100, -50);
+        journalOfEachKind();
         int[] wrong = {-1, 5, Bounds.LEAST, Bounds.MOST};
         for (int account : wrong) {
             Bounds.refused(Bounds.ARGUMENT, "balance(" + account + ")", Bounds::standing, y -> y.balance(account));
+        }
+    }
+
+    private static void journalOfEachKind() {
+        String[] rules = {"pay a=8;", "hold 0 a=8;", "hold 1 a=8;", "hold 2 a=8;", "hold 3 a=8;", "cost 0 a=8;", "cost 1 a=8;",
+            "cost 2 a=8;", "cost 3 a=8;"};
+        for (int kind = 0; kind < 9; kind++) {
+            PayHouse x = Bounds.ruled(rules[kind]);
+            x.run();
+            boolean pay = kind == 0;
+            boolean hold = kind > 0 && kind < 5;
+            balances(x, rules[kind], pay ? -8 : 0, hold ? 0 : 8, pay ? 0 : -8, hold ? 8 : 0, 0);
+            for (int authority = 0; authority < 4; authority++) {
+                boolean owed = kind == 1 + authority || kind == 5 + authority;
+                Bounds.same("owed to " + authority + " by " + rules[kind], x.owed(authority), owed ? 8 : 0);
+                x.file(authority);
+                Bounds.same("filed for " + authority + " by " + rules[kind], x.filed(authority, 0, 0), owed ? 8 : 0);
+            }
         }
     }
 

@@ -512,6 +512,14 @@ public final class BoundsOfNumbersAndTexts {
         }
         Bounds.refused(Bounds.STATE, "the highest byte alone", () -> withText(700), y -> y.type(0x2000000000000000L));
         Bounds.refused(Bounds.STATE, "a byte above 127", () -> withText(700), y -> y.type(0x80));
+        PayHouse full = withText(700);
+        for (int sign = 1; sign < 256; sign++) {
+            for (int place = 0; place < 8; place++) {
+                long bytes = (long) sign << 8 * place;
+                Bounds.refusedBy(full, Bounds.STATE, "the byte " + sign, y -> y.type(bytes));
+            }
+        }
+        Bounds.same("still", full.load(0), 3);
         Bounds.same("zeros do not count", withText(699).type(0x2000000000L), 700);
         PayHouse spare = withText(699);
         Bounds.refusedBy(spare, Bounds.STATE, "two bytes", y -> y.type(0x2000000020L));

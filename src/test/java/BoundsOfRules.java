@@ -26,6 +26,7 @@ public final class BoundsOfRules {
         versionsInForce();
         explanations();
         writtenOut();
+        oneTextBehindAnother();
         Bounds.finish(args);
     }
 
@@ -403,6 +404,11 @@ public final class BoundsOfRules {
         gives("-" + TEN_14 + "*" + TEN_14, -LIMIT);
         gives(TEN_14 + "*-" + TEN_14, -LIMIT);
         gives("-" + TEN_14 + "*-" + TEN_14, LIMIT);
+        gives("-1*5", -5);
+        gives("5*-1", -5);
+        gives("-1*-1", 1);
+        gives("1*-1", -1);
+        gives("-1*0", 0);
         gives(TEN_14 + "*1", LIMIT);
         gives(TEN_14 + "*-1", -LIMIT);
         gives(TEN_14 + "*0", 0);
@@ -415,6 +421,13 @@ public final class BoundsOfRules {
         gives("-(65536*65536)*(65536*65536)", -LIMIT);
         gives("(4294967*1000)*(4294967*1000)+1", LIMIT);
         gives("min(" + TEN_14 + "+1,1)", 1);
+        gives("max(-" + TEN_14 + "-1,1)", 1);
+        gives("min(2,3)", 2);
+        gives("min(3,2)", 2);
+        gives("min(-2,-2)", -2);
+        gives("max(2,3)", 3);
+        gives("max(3,2)", 3);
+        gives("max(-3,-2)", -2);
         gives("max(-" + TEN_14 + "-1,-" + TEN_14 + ")", -LIMIT);
         gives("if " + TEN_14 + "+1==" + TEN_14 + " then 1 else 2", 1);
         gives("if " + TEN_14 + "-1<" + TEN_14 + "+7 then 1 else 2", 1);
@@ -455,6 +468,14 @@ public final class BoundsOfRules {
         PayHouse x = Bounds.ruled("a=month+100;b=last a;c=year a;d=last d+1;e=year e+1;");
         Bounds.same("last in the month 0", x.value(0, n("b"), 0, 1), 0);
         Bounds.same("last in the month 1", x.value(0, n("b"), 1, 1), 100);
+        PayHouse zero = Bounds.ruled("a=5;b=7-last a;c=7*last a;d=7-year a;e=part(7,1,last a);f=max(-7,last a);g=bands(7,10000)-last a;");
+        String[] names = {"b", "c", "d", "e", "f", "g"};
+        long[] first = {7, 0, 7, 0, 0, 7};
+        long[] second = {2, 35, 2, 1, 5, 2};
+        for (int i = 0; i < names.length; i++) {
+            Bounds.same(names[i] + " in the month 0", zero.value(0, n(names[i]), 0, 1), first[i]);
+            Bounds.same(names[i] + " in the month 1", zero.value(0, n(names[i]), 1, 1), second[i]);
+        }
         Bounds.same("last in the month 12", x.value(0, n("b"), 12, 1), 111);
         Bounds.same("last in the month 59", x.value(0, n("b"), 59, 1), 158);
         for (int year = 0; year < 60; year += 12) {
@@ -601,6 +622,21 @@ public final class BoundsOfRules {
         gives("if [1<2 or 1<2] and 2<1 then 1 else 2", 2);
         gives("if not 1<2 or 1<2 then 1 else 2", 1);
         gives("if not [1<2 or 1<2] then 1 else 2", 2);
+        String[] comparisons = {"1<2", "2<2", "3<2", "1<=2", "2<=2", "3<=2", "1==2", "2==2", "3==2", "-1<1", "1<-1"};
+        boolean[] so = {true, false, false, true, true, false, false, true, false, true, false};
+        for (int i = 0; i < comparisons.length; i++) {
+            String one = comparisons[i];
+            gives("if " + one + " then 3 else 4", so[i] ? 3 : 4);
+            gives("if not " + one + " then 3 else 4", so[i] ? 4 : 3);
+            gives("if not not " + one + " then 3 else 4", so[i] ? 3 : 4);
+            gives("if not [" + one + "] then 3 else 4", so[i] ? 4 : 3);
+            gives("if " + one + " or 2<1 then 3 else 4", so[i] ? 3 : 4);
+            gives("if 2<1 or " + one + " then 3 else 4", so[i] ? 3 : 4);
+            gives("if not [2<1 or " + one + "] then 3 else 4", so[i] ? 4 : 3);
+            gives("if " + one + " and 1<2 then 3 else 4", so[i] ? 3 : 4);
+            gives("if 1<2 and " + one + " then 3 else 4", so[i] ? 3 : 4);
+            gives("if not [1<2 and " + one + "] then 3 else 4", so[i] ? 4 : 3);
+        }
         gives("if 1<2 then 3 else 4", 3);
         gives("if 2<2 then 3 else 4", 4);
         gives("if 2<=2 then 3 else 4", 3);
@@ -723,5 +759,41 @@ public final class BoundsOfRules {
         Bounds.sameText("more than 700 bytes", Bounds.written(x, 0), due + "4;");
         Bounds.truth("more than 700 bytes", due.length() > 700);
         Bounds.same("errors", x.errors(), 0);
+    }
+
+    /** What one text left must not be there for the next one, however many there were. */
+    private static void oneTextBehindAnother() {
+        Bounds.sentence("Loads the text as a version of the rules.");
+        PayHouse x = Bounds.people(1);
+        String[] faults = {"a=" + "(".repeat(10), "a=" + "-".repeat(11), "a=if not [1<2", "a=if 1<2 then ", "a=min(1,max(1,",
+            "a=bands(zz,10001);a=1;", "a=a;", "a=1;b=1;c=1;d=1;e=1;f=1;g=1;h=1;i=1;j=1;k=1;l=1;m=1;n=1;o=1;p=1;q=1;"};
+        StringBuilder sums = new StringBuilder("a=zz");
+        for (int i = 0; i < 60; i++) {
+            sums.append("+1+1+1+1+1");
+        }
+        for (int i = 0; i < 4; i++) {
+            for (String text : faults) {
+                Bounds.truth("a fault", Bounds.loaded(x, 0, text) < 0);
+            }
+            StringBuilder facts = new StringBuilder("a=zz");
+            for (int j = 0; j < 75; j++) {
+                facts.append("+fact x").append((char) ('a' + j % 26)).append((char) ('a' + 3 * i + j / 26));
+            }
+            Bounds.same("many facts", Bounds.loaded(x, 0, facts + ";"), -5);
+            Bounds.same("many steps", Bounds.loaded(x, 0, sums + ";"), -5);
+            String rules = "b=" + "(".repeat(10) + "fact h" + ")".repeat(10) + ";a=" + "b+".repeat(300) + "b;";
+            Bounds.same("load", Bounds.loaded(x, i, rules), i);
+            x.tell(0, n("h"), 0, 0, 59, i + 1);
+            Bounds.same("the value", x.value(0, n("a"), i, x.moment()), 301 * (i + 1));
+            Bounds.same("one fact", x.explained(0, n("a"), i), 1);
+            Bounds.same("this fact", x.explainedName(0, n("a"), i, 0), n("h"));
+            Bounds.same("definitions", x.definitions(i), 2);
+            Bounds.same("the first one", x.definedName(i, 0), n("b"));
+        }
+        Bounds.same("errors", x.errors(), 0);
+        Bounds.same("a value of the first version", x.value(0, n("a"), 0, x.moment()), 301 * 4);
+        Bounds.same("a sum", Bounds.loaded(x, 5, sums.toString().replace("zz", "1") + ";"), 4);
+        Bounds.same("a sum", x.value(0, n("a"), 5, x.moment()), 301);
+        Bounds.sameText("written out", Bounds.written(x, 4), sums.toString().replace("zz", "1") + ";");
     }
 }
