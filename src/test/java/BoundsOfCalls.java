@@ -30,6 +30,7 @@ public final class BoundsOfCalls {
         means();
         lateShares();
         errors();
+        askingChangesNothing();
         manyCalls();
         Bounds.finish(args);
     }
@@ -841,6 +842,58 @@ public final class BoundsOfCalls {
         x.takeBack(7);
         Bounds.same("taken back behind a run", x.errors(), 0);
         Bounds.same("asked twice", x.errors(), 0);
+    }
+
+    private static void asks(String what, Bounds.Call call) {
+        Bounds.leaves(what, Bounds::standing, call);
+    }
+
+    private static void askingChangesNothing() {
+        Bounds.sentence("Nothing is promised beyond the answers and state changes described above");
+        asks("type(0)", y -> y.type(0));
+        asks("outputByte", y -> y.outputByte(0));
+        asks("faultKind", y -> y.faultKind());
+        asks("versionInForce", y -> y.versionInForce(9, 6));
+        asks("definitions", y -> y.definitions(1));
+        asks("definedName", y -> y.definedName(1, 0));
+        asks("lineKind", y -> y.lineKind(1, A));
+        asks("value", y -> y.value(1, D, 59, 5));
+        asks("valueIf", y -> y.valueIf(0, D, 8, H, 8, 5));
+        asks("valueIf of a month settled", y -> y.valueIf(0, A, 1, H, 1, 5));
+        asks("explained", y -> y.explained(0, D, 8));
+        asks("explainedMonth", y -> y.explainedMonth(0, D, 8, 8));
+        asks("explainedName", y -> y.explainedName(0, D, 8, 8));
+        asks("moment", y -> y.moment());
+        asks("factAt", y -> y.factAt(1, H, 5, 4));
+        asks("sourceAt", y -> y.sourceAt(1, H, 5, 4));
+        asks("pieces", y -> y.pieces(1, H, 4));
+        asks("changes", y -> y.changes(1, H, 5));
+        asks("firstChange", y -> y.firstChange(1, 2, 4));
+        asks("presentMonth", y -> y.presentMonth());
+        asks("setReach to the same", y -> y.setReach(7));
+        asks("entries", y -> y.entries(1, 0));
+        asks("entryAt", y -> y.entryAt(1, 0, 0, 3));
+        asks("net", y -> y.net(1, 1));
+        asks("lateNet", y -> y.lateNet(1, 1));
+        asks("settled", y -> y.settled(1, n("zz"), 8, 59));
+        asks("again", y -> y.again(0, 1) + y.again(1, 1));
+        asks("setProtected to the same", y -> y.setProtected(1, 50));
+        asks("restOf", y -> y.restOf(0));
+        asks("claim", y -> y.claim(0));
+        asks("payout", y -> y.payout(0, 1));
+        asks("owed", y -> y.owed(1));
+        asks("filed", y -> y.filed(1, 0, 59));
+        asks("balance", y -> y.balance(0));
+        asks("checksum", y -> y.checksum());
+        asks("meanNet", y -> y.meanNet(1));
+        asks("lateShare", y -> y.lateShare());
+        asks("errors", y -> y.errors());
+        PayHouse x = Bounds.standing();
+        int length = x.write(0);
+        Bounds.same("errors", x.errors(), 0);
+        x.load(0);
+        Bounds.same("the output stays", x.outputByte(length - 1), ';');
+        Bounds.same("the output stays", x.outputByte(length), -1);
     }
 
     private static void manyCalls() {

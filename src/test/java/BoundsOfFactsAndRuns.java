@@ -329,7 +329,7 @@ public final class BoundsOfFactsAndRuns {
         Bounds.same("at last", x.presentMonth(), 60);
         Bounds.refused(Bounds.STATE, "the month 60", () -> {
             PayHouse y = Bounds.standing();
-            while (y.presentMonth() < 60) {
+            for (int month = 2; month < 60; month++) {
                 y.run();
             }
             return y;
@@ -441,34 +441,31 @@ public final class BoundsOfFactsAndRuns {
 
     /** As many lines as 12 versions can have, each with an amount of its own. */
     private static void manyLines() {
-        PayHouse x = Bounds.people(6);
-        for (int version = 0; version < 12; version++) {
-            StringBuilder rules = new StringBuilder();
-            for (int i = 0; i < 16; i++) {
-                rules.append(i % 2 == 0 ? "pay " : "hold " + i / 2 % 4).append(" q").append((char) ('a' + version))
-                        .append((char) ('a' + i)).append('=').append(100 * version + i + 1).append("+fact h;");
+        for (int asked = 0; asked < 12; asked++) {
+            PayHouse x = Bounds.people(6);
+            for (int version = 0; version < 12; version++) {
+                StringBuilder rules = new StringBuilder();
+                for (int i = 0; i < 16; i++) {
+                    rules.append(i % 2 == 0 ? "pay" : "hold" + i / 2 % 4).append(" q").append((char) ('a' + version))
+                            .append((char) ('a' + i)).append('=').append(16 * version + i + 1).append(';');
+                }
+                Bounds.same("load", Bounds.loaded(x, version, rules.toString()), version);
             }
-            Bounds.same("load", Bounds.loaded(x, version, rules.toString()), version);
-        }
-        x.tell(5, n("h"), 0, 0, 59, 10000);
-        for (int i = 0; i < 13; i++) {
-            x.run();
-        }
-        for (int version = 0; version < 12; version++) {
+            for (int i = 0; i < 13; i++) {
+                x.run();
+            }
             for (int i = 0; i < 16; i++) {
-                long name = n("q" + (char) ('a' + version) + (char) ('a' + i));
+                long name = n("q" + (char) ('a' + asked) + (char) ('a' + i));
                 int kind = i % 2 == 0 ? 0 : 1 + i / 2 % 4;
-                long due = 100 * version + i + 1;
-                Bounds.same("settled", x.settled(0, name, kind, version), due);
-                Bounds.same("settled for the last person", x.settled(5, name, kind, version), due + 10000);
-                Bounds.same("the month ahead", version == 0 ? 0 : x.settled(0, name, kind, version - 1), 0);
-                Bounds.same("the month behind", x.settled(0, name, kind, version + 1), version == 11 ? due : 0);
-                Bounds.same("the name", x.entryAt(version, 5, i, 1), name);
-                Bounds.same("the kind", x.entryAt(version, 5, i, 2), kind);
-                Bounds.same("the difference", x.entryAt(version, 5, i, 3), due + 10000);
+                long due = 16 * asked + i + 1;
+                Bounds.same("settled", x.settled(i % 6, name, kind, asked), due);
+                Bounds.same("the month behind", x.settled(5, name, kind, asked + 1), asked == 11 ? due : 0);
+                Bounds.same("the name", x.entryAt(asked, 5, i, 1), name);
+                Bounds.same("the kind", x.entryAt(asked, 5, i, 2), kind);
+                Bounds.same("the difference", x.entryAt(asked, 5, i, 3), due);
             }
+            Bounds.same("errors", x.errors(), 0);
         }
-        Bounds.same("errors", x.errors(), 0);
     }
 
     private static void runsAheadOfVersions() {

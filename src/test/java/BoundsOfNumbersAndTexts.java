@@ -177,8 +177,23 @@ public final class BoundsOfNumbersAndTexts {
                 y -> y.withdraw(0, n("h"), 2, 0, 59));
         Bounds.refused(Bounds.STATE, "the 121st takes back", () -> withStatements(120), y -> y.takeBack(117));
         Bounds.refused(Bounds.ARGUMENT, "a name is first", () -> withStatements(120), y -> y.tell(0, 0, 2, 0, 59, 7));
+        Bounds.refused(Bounds.ARGUMENT, "a value is first", () -> withStatements(120),
+                y -> y.tell(0, n("h"), 2, 0, 59, 1000000001));
+        Bounds.refused(Bounds.ARGUMENT, "a source is first", () -> withStatements(120),
+                y -> y.withdraw(0, n("h"), 3, 0, 59));
         Bounds.refused(Bounds.INDEX, "a month is first", () -> withStatements(120), y -> y.withdraw(0, 0, 2, 0, 60));
         Bounds.refused(Bounds.ARGUMENT, "a moment is first", () -> withStatements(120), y -> y.takeBack(1));
+        Bounds.Maker latestTells = () -> {
+            PayHouse x = withStatements(119);
+            x.tell(0, n("h"), 2, 0, 59, 77);
+            return x;
+        };
+        Bounds.refused(Bounds.STATE, "the latest one stays", latestTells, y -> y.takeBack(121));
+        PayHouse late = latestTells.make();
+        Bounds.refusedBy(late, Bounds.STATE, "the latest one stays", y -> y.takeBack(121));
+        late.tellText();
+        Bounds.loaded(late, 0, "");
+        Bounds.same("it counts still", late.factAt(0, n("h"), 5, 122), 77);
     }
 
     /** A house in the month given, with so many runs. */
@@ -266,8 +281,8 @@ public final class BoundsOfNumbersAndTexts {
         Bounds.sentence("A name consists of 1 to 8 letters a to z that are no word of section 2. As a parameter it is "
                 + "told as a long: its letters as bytes, the last letter in the lowest byte, all higher bytes 0.");
         long h = n("h");
-        PayHouse x = standing();
         for (long no : noNames()) {
+            PayHouse x = standing();
             String what = "with the number " + no;
             Bounds.refusedBy(x, Bounds.ARGUMENT, "lineKind " + what, y -> y.lineKind(0, no));
             Bounds.refusedBy(x, Bounds.ARGUMENT, "value " + what, y -> y.value(0, no, 0, 0));
@@ -427,8 +442,13 @@ public final class BoundsOfNumbersAndTexts {
             Bounds.refusedBy(x, Bounds.INDEX, "lineKind of " + version, y -> y.lineKind(version, n("a")));
             Bounds.refusedBy(x, Bounds.INDEX, "write of " + version, y -> y.write(version));
         }
+        runsAndOthersAsked();
+    }
+
+    private static void runsAndOthersAsked() {
         int[] noRuns = {-1, 2, 90, Bounds.LEAST, Bounds.MOST};
         for (int run : noRuns) {
+            PayHouse x = standing();
             Bounds.refusedBy(x, Bounds.INDEX, "entries of " + run, y -> y.entries(run, 0));
             Bounds.refusedBy(x, Bounds.INDEX, "entryAt of " + run, y -> y.entryAt(run, 0, 0, 0));
             Bounds.refusedBy(x, Bounds.INDEX, "net of " + run, y -> y.net(run, 0));
@@ -438,6 +458,7 @@ public final class BoundsOfNumbersAndTexts {
             Bounds.refusedBy(x, Bounds.INDEX, "comeBack of " + run, y -> y.comeBack(run, 0));
             Bounds.refusedBy(x, Bounds.INDEX, "meanNet of " + run, y -> y.meanNet(run));
         }
+        PayHouse x = standing();
         int[] noWithholdings = {-1, 1, 8, Bounds.LEAST, Bounds.MOST};
         for (int withholding : noWithholdings) {
             Bounds.refusedBy(x, Bounds.INDEX, "restOf " + withholding, y -> y.restOf(withholding));
@@ -512,14 +533,13 @@ public final class BoundsOfNumbersAndTexts {
         }
         Bounds.refused(Bounds.STATE, "the highest byte alone", () -> withText(700), y -> y.type(0x2000000000000000L));
         Bounds.refused(Bounds.STATE, "a byte above 127", () -> withText(700), y -> y.type(0x80));
-        PayHouse full = withText(700);
         for (int sign = 1; sign < 256; sign++) {
+            PayHouse full = withText(700);
             for (int place = 0; place < 8; place++) {
                 long bytes = (long) sign << 8 * place;
                 Bounds.refusedBy(full, Bounds.STATE, "the byte " + sign, y -> y.type(bytes));
             }
         }
-        Bounds.same("still", full.load(0), 3);
         Bounds.same("zeros do not count", withText(699).type(0x2000000000L), 700);
         PayHouse spare = withText(699);
         Bounds.refusedBy(spare, Bounds.STATE, "two bytes", y -> y.type(0x2000000020L));

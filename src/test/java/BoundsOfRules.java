@@ -755,45 +755,70 @@ public final class BoundsOfRules {
             tight.append("if 1<2and 1<2or 1<2and 1<2or 1<2and 1<2or 1<2and 1<2or 1<2then 3else ");
             due.append("if 1<2 and 1<2 or 1<2 and 1<2 or 1<2 and 1<2 or 1<2 and 1<2 or 1<2 then 3 else ");
         }
-        PayHouse x = fine(tight + "4;");
-        Bounds.sameText("more than 700 bytes", Bounds.written(x, 0), due + "4;");
+        Bounds.sameText("more than 700 bytes", Bounds.writtenByParts(() -> fine(tight + "4;")), due + "4;");
         Bounds.truth("more than 700 bytes", due.length() > 700);
-        Bounds.same("errors", x.errors(), 0);
+        Bounds.same("errors", fine(tight + "4;").errors(), 0);
     }
 
     /** What one text left must not be there for the next one, however many there were. */
     private static void oneTextBehindAnother() {
         Bounds.sentence("Loads the text as a version of the rules.");
-        PayHouse x = Bounds.people(1);
+        PayHouse opened = Bounds.people(1);
         String[] faults = {"a=" + "(".repeat(10), "a=" + "-".repeat(11), "a=if not [1<2", "a=if 1<2 then ", "a=min(1,max(1,",
             "a=bands(zz,10001);a=1;", "a=a;", "a=1;b=1;c=1;d=1;e=1;f=1;g=1;h=1;i=1;j=1;k=1;l=1;m=1;n=1;o=1;p=1;q=1;"};
-        StringBuilder sums = new StringBuilder("a=zz");
-        for (int i = 0; i < 60; i++) {
-            sums.append("+1+1+1+1+1");
+        for (int i = 0; i < faults.length; i++) {
+            Bounds.truth("a fault", Bounds.loaded(opened, 0, faults[i]) < 0);
+            String rules = "b=" + "(".repeat(10) + "fact h" + ")".repeat(10) + ";a=b+b;";
+            Bounds.same("a text behind " + faults[i], Bounds.loaded(opened, i, rules), i);
+            Bounds.same("definitions", opened.definitions(i), 2);
+            Bounds.same("the first one", opened.definedName(i, 0), n("b"));
         }
-        for (int i = 0; i < 4; i++) {
-            for (String text : faults) {
-                Bounds.truth("a fault", Bounds.loaded(x, 0, text) < 0);
-            }
-            StringBuilder facts = new StringBuilder("a=zz");
-            for (int j = 0; j < 75; j++) {
-                facts.append("+fact x").append((char) ('a' + j % 26)).append((char) ('a' + 3 * i + j / 26));
-            }
-            Bounds.same("many facts", Bounds.loaded(x, 0, facts + ";"), -5);
-            Bounds.same("many steps", Bounds.loaded(x, 0, sums + ";"), -5);
-            String rules = "b=" + "(".repeat(10) + "fact h" + ")".repeat(10) + ";a=" + "b+".repeat(300) + "b;";
-            Bounds.same("load", Bounds.loaded(x, i, rules), i);
-            x.tell(0, n("h"), 0, 0, 59, i + 1);
-            Bounds.same("the value", x.value(0, n("a"), i, x.moment()), 301 * (i + 1));
-            Bounds.same("one fact", x.explained(0, n("a"), i), 1);
-            Bounds.same("this fact", x.explainedName(0, n("a"), i, 0), n("h"));
-            Bounds.same("definitions", x.definitions(i), 2);
-            Bounds.same("the first one", x.definedName(i, 0), n("b"));
+        Bounds.same("errors", opened.errors(), 0);
+        factsBehindOthers();
+        stepsBehindOthers();
+    }
+
+    private static String seventyFive(char letter) {
+        StringBuilder facts = new StringBuilder();
+        for (int i = 0; i < 75; i++) {
+            facts.append("+fact ").append(letter).append((char) ('a' + i % 26)).append((char) ('p' + i / 26));
         }
+        return facts.toString();
+    }
+
+    private static void factsBehindOthers() {
+        PayHouse x = Bounds.people(1);
+        Bounds.same("a fault", Bounds.loaded(x, 0, "a=zz" + seventyFive('x') + ";"), -5);
+        Bounds.same("a fault", Bounds.loaded(x, 0, "a=zz" + seventyFive('y') + ";"), -5);
+        Bounds.same("load", Bounds.loaded(x, 0, "a=1" + seventyFive('z') + ";"), 0);
+        Bounds.same("load", Bounds.loaded(x, 1, "b=1;a=last a" + seventyFive('w') + ";"), 1);
+        x.tell(0, n("zax"), 0, 0, 0, 1);
+        Bounds.same("a", x.value(0, n("a"), 0, x.moment()), 1);
+        x.tell(0, n("zap"), 0, 0, 0, 2);
+        x.tell(0, n("wwr"), 0, 1, 1, 3);
+        Bounds.same("a", x.value(0, n("a"), 0, x.moment()), 3);
+        Bounds.same("a of the next version", x.value(0, n("a"), 1, x.moment()), 6);
+        Bounds.same("its own facts", x.explained(0, n("a"), 0), 75);
+        Bounds.same("the facts of both", x.explained(0, n("a"), 1), 150);
+        Bounds.same("the first one", x.explainedName(0, n("a"), 1, 0), n("zap"));
+        Bounds.same("the last one of the month 0", x.explainedName(0, n("a"), 1, 74), n("zzq"));
+        Bounds.same("the first one of the month 1", x.explainedName(0, n("a"), 1, 75), n("wap"));
+        Bounds.same("the last one", x.explainedName(0, n("a"), 1, 149), n("wzq"));
+        Bounds.same("its month", x.explainedMonth(0, n("a"), 1, 149), 1);
+    }
+
+    private static void stepsBehindOthers() {
+        PayHouse x = Bounds.people(1);
+        String sum = "+1".repeat(300) + ";";
+        for (int i = 0; i < 3; i++) {
+            Bounds.same("a fault", Bounds.loaded(x, 0, "a=zz" + sum), -5);
+        }
+        Bounds.same("load", Bounds.loaded(x, 0, "b=fact h;a=" + "b+".repeat(300) + "b;"), 0);
+        x.tell(0, n("h"), 0, 0, 59, 2);
+        Bounds.same("the value", x.value(0, n("a"), 0, 2), 602);
+        Bounds.same("load", Bounds.loaded(x, 1, "a=1" + sum), 1);
+        Bounds.same("a value of the first version", x.value(0, n("a"), 0, 3), 602);
+        Bounds.same("a value of the second version", x.value(0, n("a"), 1, 3), 301);
         Bounds.same("errors", x.errors(), 0);
-        Bounds.same("a value of the first version", x.value(0, n("a"), 0, x.moment()), 301 * 4);
-        Bounds.same("a sum", Bounds.loaded(x, 5, sums.toString().replace("zz", "1") + ";"), 4);
-        Bounds.same("a sum", x.value(0, n("a"), 5, x.moment()), 301);
-        Bounds.sameText("written out", Bounds.written(x, 4), sums.toString().replace("zz", "1") + ";");
     }
 }
