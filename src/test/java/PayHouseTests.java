@@ -1683,6 +1683,13 @@ public final class PayHouseTests {
         number[2] = '0';
         isLong("a version that is not written the same", x.errors(), 1);
         number[2] = '1';
+        loaded(x, 9, "hold 2 y=1;");
+        byte[] blanks = (byte[]) held(((Object[]) held(x, "versions"))[3], "text");
+        blanks[4] = '2';
+        blanks[5] = ' ';
+        isLong("a version that is written as long, but otherwise", x.errors(), 1);
+        blanks[4] = ' ';
+        blanks[5] = '2';
         long[] filings = (long[]) held(held(x, "books"), "filings");
         filings[20 * 60 + 1]++;
         filings[20 * 60 + 2]--;
@@ -1692,6 +1699,14 @@ public final class PayHouseTests {
         filings[20 * 60 + 1]--;
         filings[20 * 60 + 2]++;
         filings[20 * 60 * 2]--;
+        x.file(0);
+        x.file(3);
+        filings[59]++;
+        isLong("a filing of the first authority", x.errors(), 1);
+        filings[59]--;
+        filings[20 * 60 * 3 + 59]++;
+        isLong("a filing of the last authority", x.errors(), 1);
+        filings[20 * 60 * 3 + 59]--;
         long[] claims = (long[]) held(held(x, "books"), "claims");
         claims[0] += 5;
         isLong("the balances", x.errors(), 1);
