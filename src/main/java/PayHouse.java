@@ -126,9 +126,9 @@ public final class PayHouse {
         versions = new Version[VERSIONS_MAX];
         runs = new Run[RUNS_MAX];
         tokens = new Tokens();
-        reader = new RuleReader();
-        facts = new Facts();
-        worker = new Worker();
+        reader = new RuleReader(tokens);
+        facts = new Facts(tokens);
+        worker = new Worker(facts);
         ledger = new Ledger();
         books = new Books();
         sums = new long[MONTHS * LINES_MAX];
@@ -166,14 +166,13 @@ public final class PayHouse {
         }
         tokens.read(text.bytes, text.length);
         text.length = 0;
-        latestFault = reader.read(tokens);
+        latestFault = reader.read();
         if (latestFault != 0) {
             return -3 - reader.place;
         }
         tokens.writeTo(written);
         now++;
-        Version version = reader.makeVersion(versionCount, month, now);
-        version.text = Arrays.copyOf(written.bytes, written.length);
+        Version version = new Version(reader, written, versionCount, month, now);
         ledger.addLines(version);
         versions[versionCount] = version;
         versionCount++;
@@ -276,7 +275,7 @@ public final class PayHouse {
     }
 
     private void beginWork(int person, int moment) {
-        worker.begin(facts, person, moment);
+        worker.begin(person, moment);
         worker.takeVersions(versions, versionCount);
     }
 
@@ -334,9 +333,9 @@ public final class PayHouse {
     public int tellText() {
         tokens.read(text.bytes, text.length);
         text.length = 0;
-        int count = facts.countStatements(tokens, personCount);
+        int count = facts.countStatements(personCount);
         if (count >= 0) {
-            facts.makeStatements(tokens, count, now);
+            facts.makeStatements(count, now);
             now += count;
         }
         return count;
@@ -635,16 +634,15 @@ public final class PayHouse {
         if (books.withholdingCount >= WITHHOLDINGS_MAX) {
             throw new IllegalStateException("there are 8 withholdings");
         }
-        books.withholdings[books.withholdingCount] = new Withholding(person, priority, amount, most);
-        books.withholdingCount++;
-        return books.withholdingCount - 1;
+        return books.addWithholding(new Withholding(person, priority, amount, most));
     }
 
     public long restOf(int withholding) throws IndexOutOfBoundsException {
-        if (withholding < 0 || withholding >= books.withholdingCount) {
+        Withholding existing = books.withholdingAt(withholding);
+        if (existing == null) {
             throw new IndexOutOfBoundsException("no such withholding");
         }
-        return books.withholdings[withholding].rest;
+        return existing.rest;
     }
 
     public long advance(int person, long amount)
@@ -739,7 +737,8 @@ public final class PayHouse {
             sum = 31 * sum + ledger.settledPay(person);
         }
         for (int i = 0; i < books.withholdingCount; i++) {
-            sum = 31 * sum + books.withholdings[i].rest;
+            Withholding next = books.withholdingAt(i);
+            sum = 31 * sum + (next == null ? 0 : next.rest);
         }
         return 31 * sum + books.bank;
     }
@@ -762,14 +761,22 @@ public final class PayHouse {
         }
         int late = 0;
         for (int run = 0; run < runCount; run++) {
-            Run slips = runs[run];
-            for (int entry = slips.starts[0]; entry < slips.starts[PERSONS_MAX]; entry++) {
-                if (ledger.monthOf(entry) < slips.lastMonth) {
-                    late++;
-                }
-            }
+            late += lateEntries(runs[run]);
         }
         return (float) late / (float) ledger.count;
+    }
+
+    private int lateEntries(Run slips) {
+        if (slips == null) {
+            return 0;
+        }
+        int late = 0;
+        for (int entry = slips.starts[0]; entry < slips.starts[PERSONS_MAX]; entry++) {
+            if (ledger.monthOf(entry) < slips.lastMonth) {
+                late++;
+            }
+        }
+        return late;
     }
 
     public int errors() {
@@ -817,8 +824,11 @@ public final class PayHouse {
     }
 
     private boolean readsAgain(Version version) {
+        if (version == null) {
+            return false;
+        }
         tokens.read(version.text, version.text.length);
-        if (reader.read(tokens) != 0) {
+        if (reader.read() != 0) {
             return false;
         }
         tokens.writeTo(written);
@@ -841,12 +851,7 @@ public final class PayHouse {
             sums[month] = 0;
         }
         for (int run = 0; run < books.runsFiled[authority] && run < runCount; run++) {
-            Run slips = runs[run];
-            for (int entry = slips.starts[0]; entry < slips.starts[PERSONS_MAX]; entry++) {
-                if (authorityOf(ledger.lineKinds[ledger.lineOf(entry)]) == authority) {
-                    sums[ledger.monthOf(entry)] += ledger.differences[entry];
-                }
-            }
+            addForAuthority(runs[run], authority);
         }
         for (int month = 0; month < MONTHS; month++) {
             if (sums[month] != books.filedBefore(authority, month)) {
@@ -854,6 +859,18 @@ public final class PayHouse {
             }
         }
         return false;
+    }
+
+    // Here the sums are those of the months.
+    private void addForAuthority(Run slips, int authority) {
+        if (slips == null) {
+            return;
+        }
+        for (int entry = slips.starts[0]; entry < slips.starts[PERSONS_MAX]; entry++) {
+            if (authorityOf(ledger.lineKinds[ledger.lineOf(entry)]) == authority) {
+                sums[ledger.monthOf(entry)] += ledger.differences[entry];
+            }
+        }
     }
 
     // ---- what several calls ask of their parameters
@@ -893,17 +910,19 @@ public final class PayHouse {
     }
 
     private Version existingVersion(int version) {
-        if (version < 0 || version >= versionCount) {
+        Version existing = version < 0 || version >= versionCount ? null : versions[version];
+        if (existing == null) {
             throw new IndexOutOfBoundsException("no such version");
         }
-        return versions[version];
+        return existing;
     }
 
     private Run existingRun(int run) {
-        if (run < 0 || run >= runCount) {
+        Run existing = run < 0 || run >= runCount ? null : runs[run];
+        if (existing == null) {
             throw new IndexOutOfBoundsException("no such run");
         }
-        return runs[run];
+        return existing;
     }
 
     private Run existingSlip(int run, int person) {
@@ -1156,7 +1175,7 @@ public final class PayHouse {
 
     /** Reads a text of rules, finds its first fault, and makes steps of its definitions. */
     private static final class RuleReader {
-        private Tokens tokens;
+        private final Tokens tokens;
         int place;
         private int secondPlace;
         private int open;
@@ -1177,7 +1196,8 @@ public final class PayHouse {
         private final long[] factNames;
         private final int[] hangsOn;
 
-        RuleReader() {
+        RuleReader(Tokens source) {
+            tokens = source;
             names = new long[DEFINITIONS_MAX];
             places = new int[DEFINITIONS_MAX];
             kinds = new int[DEFINITIONS_MAX];
@@ -1192,9 +1212,8 @@ public final class PayHouse {
             hangsOn = new int[DEFINITIONS_MAX];
         }
 
-        /** Answers the kind of the fault, whose place is told by place, or 0. */
-        int read(Tokens source) {
-            tokens = source;
+        /** Reads the tokens, and answers the kind of the fault, whose place is told by place, or 0. */
+        int read() {
             place = 0;
             secondPlace = NO_PLACE;
             open = 0;
@@ -1218,19 +1237,6 @@ public final class PayHouse {
                 return 3;
             }
             return 0;
-        }
-
-        Version makeVersion(int number, int month, int moment) {
-            Version version = new Version(number, month, moment);
-            version.count = count;
-            version.names = Arrays.copyOf(names, count);
-            version.kinds = Arrays.copyOf(kinds, count);
-            version.starts = Arrays.copyOf(starts, count);
-            version.ops = Arrays.copyOf(ops, size);
-            version.args = Arrays.copyOf(args, size);
-            version.factNames = Arrays.copyOf(factNames, factCount);
-            version.rankFacts();
-            return version;
         }
 
         private boolean readDefinition() {
@@ -1656,23 +1662,33 @@ public final class PayHouse {
         final int number;
         final int month;
         final int moment;
-        int count;
-        long[] names;
-        int[] kinds;
-        int[] starts;
-        int[] ops;
-        int[] args;
-        long[] factNames;
-        int[] factRanks;
-        int[] definitionsOfLines;
-        byte[] text;
+        final int count;
+        final long[] names;
+        final int[] kinds;
+        final int[] starts;
+        final int[] ops;
+        final int[] args;
+        private final long[] factNames;
+        final int[] factRanks;
+        private final int[] definitionsOfLines;
+        final byte[] text;
 
-        Version(int number, int month, int moment) {
+        /** Takes what has been read without a fault, and written out. */
+        Version(RuleReader rules, Text written, int number, int month, int moment) {
             this.number = number;
             this.month = month;
             this.moment = moment;
+            count = rules.count;
+            names = Arrays.copyOf(rules.names, rules.count);
+            kinds = Arrays.copyOf(rules.kinds, rules.count);
+            starts = Arrays.copyOf(rules.starts, rules.count);
+            ops = Arrays.copyOf(rules.ops, rules.size);
+            args = Arrays.copyOf(rules.args, rules.size);
+            factNames = Arrays.copyOf(rules.factNames, rules.factCount);
+            factRanks = ranksOf(factNames);
             definitionsOfLines = new int[LINES_MAX];
             Arrays.fill(definitionsOfLines, -1);
+            text = Arrays.copyOf(written.bytes, written.length);
         }
 
         static Version inForce(Version[] versions, int count, int month, int moment) {
@@ -1696,16 +1712,42 @@ public final class PayHouse {
             return -1;
         }
 
-        void rankFacts() {
-            factRanks = new int[factNames.length];
-            for (int fact = 0; fact < factNames.length; fact++) {
-                int rank = fact;
-                while (rank > 0 && isAhead(factNames[fact], factNames[factRanks[rank - 1]])) {
-                    factRanks[rank] = factRanks[rank - 1];
+        private static int[] ranksOf(long[] names) {
+            int[] ranks = new int[names.length];
+            for (int i = 0; i < names.length; i++) {
+                int rank = i;
+                while (rank > 0 && isAhead(names[i], names[ranks[rank - 1]])) {
+                    ranks[rank] = ranks[rank - 1];
                     rank--;
                 }
-                factRanks[rank] = fact;
+                ranks[rank] = i;
             }
+            return ranks;
+        }
+
+        /** Answers the name of a definition, or 0, which is no name. */
+        long nameOf(int definition) {
+            return definition < 0 || definition >= names.length ? 0 : names[definition];
+        }
+
+        /** Answers the name of a fact, or 0, which is no name. */
+        long factNameOf(int fact) {
+            return fact < 0 || fact >= factNames.length ? 0 : factNames[fact];
+        }
+
+        void setDefinitionOf(int line, int definition) {
+            if (line >= 0 && line < definitionsOfLines.length) {
+                definitionsOfLines[line] = definition;
+            }
+        }
+
+        /** Answers the place of the line's definition, or -1. */
+        int definitionOf(int line) {
+            return line < 0 || line >= definitionsOfLines.length ? -1 : definitionsOfLines[line];
+        }
+
+        boolean hasStep(int step) {
+            return step >= 0 && step < ops.length && step < args.length;
         }
     }
 
@@ -1714,7 +1756,7 @@ public final class PayHouse {
      * needs the value of another cell waits until this has been worked out, and is then done again.
      */
     private static final class Worker {
-        private Facts facts;
+        private final Facts facts;
         private int person;
         private int moment;
         private long supposedFact;
@@ -1732,7 +1774,8 @@ public final class PayHouse {
         private final long[] stack;
         private int top;
 
-        Worker() {
+        Worker(Facts known) {
+            facts = known;
             versions = new Version[MONTHS];
             cells = new long[CELLS];
             cellStamps = new int[CELLS];
@@ -1742,8 +1785,7 @@ public final class PayHouse {
             stack = new long[STACK_MAX];
         }
 
-        void begin(Facts known, int ofPerson, int asOf) {
-            facts = known;
+        void begin(int ofPerson, int asOf) {
             person = ofPerson;
             moment = asOf;
             supposedFact = 0;
@@ -1762,22 +1804,35 @@ public final class PayHouse {
             supposedValue = value;
         }
 
+        private Version versionOf(int month) {
+            return month < 0 || month >= MONTHS ? null : versions[month];
+        }
+
+        /** Answers the place of the definition in the month's version, or -1. */
         int definitionNamed(int month, long name) {
-            Version version = versions[month];
+            Version version = versionOf(month);
             return version == null ? -1 : version.indexOf(name);
         }
 
+        /** Answers the place of the line's definition in the month's version, or -1. */
         int definitionOf(int month, int line) {
-            Version version = versions[month];
-            return version == null ? -1 : version.definitionsOfLines[line];
+            Version version = versionOf(month);
+            return version == null ? -1 : version.definitionOf(line);
+        }
+
+        private static int cellOf(int month, int definition) {
+            if (month < 0 || month >= MONTHS || definition < 0 || definition >= DEFINITIONS_MAX) {
+                return -1;
+            }
+            return month * DEFINITIONS_MAX + definition;
         }
 
         /** Answers the value of a definition of the month's version, or 0 if there is none. */
         long cellValue(int month, int definition) {
-            if (definition < 0) {
+            int cell = cellOf(month, definition);
+            if (cell < 0) {
                 return 0;
             }
-            int cell = month * DEFINITIONS_MAX + definition;
             if (cellStamps[cell] != stamp) {
                 depth = 0;
                 top = 0;
@@ -1790,13 +1845,14 @@ public final class PayHouse {
         }
 
         private void await(int cell) {
-            Version version = versions[cell / DEFINITIONS_MAX];
-            if (version == null || depth >= waitingCells.length) {
+            Version version = cell < 0 || cell >= CELLS ? null : versions[cell / DEFINITIONS_MAX];
+            int definition = cell % DEFINITIONS_MAX;
+            if (version == null || definition >= version.starts.length || depth >= waitingCells.length) {
                 depth = 0;
                 return;
             }
             waitingCells[depth] = cell;
-            waitingSteps[depth] = version.starts[cell % DEFINITIONS_MAX];
+            waitingSteps[depth] = version.starts[definition];
             depth++;
         }
 
@@ -1804,9 +1860,9 @@ public final class PayHouse {
             int waiting = depth - 1;
             int cell = waitingCells[waiting];
             int month = cell / DEFINITIONS_MAX;
-            Version version = versions[month];
+            Version version = versionOf(month);
             int step = waitingSteps[waiting];
-            if (version == null || step >= version.ops.length) {
+            if (version == null || !version.hasStep(step)) {
                 depth = 0;
                 return;
             }
@@ -1819,22 +1875,22 @@ public final class PayHouse {
                     depth--;
                     return;
                 case OP_NAME:
-                    if (!pushCell(month, arg)) {
+                    if (!pushCell(cellOf(month, arg))) {
                         return;
                     }
                     break;
                 case OP_LAST:
-                    if (!pushLast(month, version.names[arg])) {
+                    if (!pushCell(cellOf(month - 1, definitionNamed(month - 1, version.nameOf(arg))))) {
                         return;
                     }
                     break;
                 case OP_YEAR:
-                    if (!pushYear(month, version.names[arg])) {
+                    if (!pushYear(month, version.nameOf(arg))) {
                         return;
                     }
                     break;
                 case OP_FACT:
-                    push(askFact(month, arg, version.factNames[arg]));
+                    push(askFact(month, arg, version.factNameOf(arg)));
                     break;
                 case OP_BANDS:
                     push(bandsOf(pop(), version, step));
@@ -1927,66 +1983,54 @@ public final class PayHouse {
             return stack[top];
         }
 
-        private boolean pushCell(int month, int definition) {
-            int cell = month * DEFINITIONS_MAX + definition;
-            if (cellStamps[cell] != stamp) {
+        // A cell that is not known yet is awaited; where there is none, the value is 0.
+        private boolean pushCell(int cell) {
+            if (cell >= 0 && cellStamps[cell] != stamp) {
                 await(cell);
                 return false;
             }
-            push(cells[cell]);
+            push(cell < 0 ? 0 : cells[cell]);
             return true;
-        }
-
-        private boolean pushLast(int month, long name) {
-            int definition = month == 0 ? -1 : definitionNamed(month - 1, name);
-            if (definition < 0) {
-                push(0);
-                return true;
-            }
-            return pushCell(month - 1, definition);
         }
 
         private boolean pushYear(int month, long name) {
             long sum = 0;
             for (int before = month - month % YEAR_MONTHS; before < month; before++) {
-                int definition = definitionNamed(before, name);
-                if (definition >= 0) {
-                    int cell = before * DEFINITIONS_MAX + definition;
-                    if (cellStamps[cell] != stamp) {
-                        await(cell);
-                        return false;
-                    }
-                    sum = sumOf(sum, cells[cell]);
+                if (!pushCell(cellOf(before, definitionNamed(before, name)))) {
+                    return false;
                 }
+                sum = sumOf(sum, pop());
             }
             push(sum);
             return true;
         }
 
         private long askFact(int month, int fact, long name) {
-            askedStamps[month * FACTS_MAX + fact] = stamp;
+            if (fact >= 0 && fact < FACTS_MAX) {
+                askedStamps[month * FACTS_MAX + fact] = stamp;
+            }
             if (name == supposedFact && month == supposedMonth) {
                 return supposedValue;
             }
-            Statement giving = facts == null ? null : facts.giving(person, name, month, moment);
+            Statement giving = facts.giving(person, name, month, moment);
             return giving == null ? 0 : giving.told;
         }
 
         private static long bandsOf(long amount, Version version, int step) {
-            if (amount <= 0) {
+            if (amount <= 0 || !version.hasStep(step)) {
                 return 0;
             }
             long sum = 0;
             long done = 0;
             int last = step + version.args[step] + 1;
-            for (int band = step + 1; band < last && band < version.ops.length; band++) {
+            for (int band = step + 1; band < last && version.hasStep(band); band++) {
                 long upTo = Math.min(amount, version.ops[band]);
                 if (upTo > done) {
                     sum += (upTo - done) * version.args[band];
                     done = upTo;
                 }
             }
-            if (last < version.args.length) {
+            if (version.hasStep(last)) {
                 sum += (amount - done) * version.args[last];
             }
             return sum / RATE_MAX;
@@ -2006,7 +2050,7 @@ public final class PayHouse {
         int findAsked(int index) {
             int left = index;
             for (int month = 0; month < MONTHS && index >= 0; month++) {
-                Version version = versions[month];
+                Version version = versionOf(month);
                 int count = version == null ? 0 : version.factRanks.length;
                 for (int rank = 0; rank < count; rank++) {
                     int asked = month * FACTS_MAX + version.factRanks[rank];
@@ -2022,8 +2066,8 @@ public final class PayHouse {
         }
 
         long askedName(int asked) {
-            Version version = versions[asked / FACTS_MAX];
-            return version == null ? 0 : version.factNames[asked % FACTS_MAX];
+            Version version = versionOf(asked / FACTS_MAX);
+            return version == null ? 0 : version.factNameOf(asked % FACTS_MAX);
         }
 
         private static long sumOf(long left, long right) {
@@ -2070,6 +2114,10 @@ public final class PayHouse {
             this.to = to;
         }
 
+        boolean concerns(int ofPerson, long fact, int month) {
+            return name == fact && person == ofPerson && from <= month && month <= to;
+        }
+
         boolean countsAt(int moment) {
             return knownFrom <= moment && (takenBackFrom == 0 || takenBackFrom > moment);
         }
@@ -2081,10 +2129,11 @@ public final class PayHouse {
         private int count;
         // Counts those that take back too, which concern the limit but have no place in the list.
         int made;
-        private Tokens tokens;
+        private final Tokens tokens;
         private final Statement draft;
 
-        Facts() {
+        Facts(Tokens source) {
+            tokens = source;
             statements = new Statement[STATEMENTS_MAX];
             draft = new Statement(0, 0, 0, 0, 0);
         }
@@ -2100,8 +2149,9 @@ public final class PayHouse {
 
         Statement knownFrom(int moment) {
             for (int i = 0; i < count; i++) {
-                if (statements[i].knownFrom == moment) {
-                    return statements[i];
+                Statement next = statements[i];
+                if (next != null && next.knownFrom == moment) {
+                    return next;
                 }
             }
             return null;
@@ -2113,8 +2163,8 @@ public final class PayHouse {
             int heard = 0;
             for (int i = count - 1; i >= 0; i--) {
                 Statement next = statements[i];
-                if (next.name == name && next.person == person && next.from <= month && month <= next.to
-                        && (heard >> next.source & 1) == 0 && next.countsAt(moment)) {
+                if (next != null && next.concerns(person, name, month) && next.countsAt(moment)
+                        && (heard >> next.source & 1) == 0) {
                     heard |= 1 << next.source;
                     if (next.tells && (best == null || next.source > best.source)) {
                         best = next;
@@ -2136,7 +2186,7 @@ public final class PayHouse {
             int first = MONTHS;
             for (int i = 0; i < count; i++) {
                 Statement next = statements[i];
-                if (next.person == person && next.countsAt(moment) != next.countsAt(later)) {
+                if (next != null && next.person == person && next.countsAt(moment) != next.countsAt(later)) {
                     first = firstDifferenceOf(next, moment, later, first);
                 }
             }
@@ -2155,8 +2205,7 @@ public final class PayHouse {
         }
 
         /** Answers how many statements the text makes, or -3 less the place of its fault. */
-        int countStatements(Tokens source, int persons) {
-            tokens = source;
+        int countStatements(int persons) {
             int found = 0;
             for (int turn = 0; turn <= STATEMENTS_MAX && tokens.kind != END; turn++) {
                 if (made + found >= STATEMENTS_MAX || !readStatement(draft, persons)) {
@@ -2167,8 +2216,7 @@ public final class PayHouse {
             return found;
         }
 
-        void makeStatements(Tokens source, int number, int moment) {
-            tokens = source;
+        void makeStatements(int number, int moment) {
             tokens.rewind();
             for (int i = 1; i <= number; i++) {
                 Statement statement = new Statement(0, 0, 0, 0, 0);
@@ -2271,7 +2319,7 @@ public final class PayHouse {
                     if (line < 0) {
                         line = addLine(version.names[i], version.kinds[i]);
                     }
-                    version.definitionsOfLines[line] = i;
+                    version.setDefinitionOf(line, i);
                 }
             }
         }
@@ -2401,6 +2449,10 @@ public final class PayHouse {
             this.most = most;
         }
 
+        boolean isFor(int ofPerson, int ofPriority) {
+            return person == ofPerson && priority == ofPriority;
+        }
+
         long wants() {
             return Math.min(rest, most);
         }
@@ -2414,7 +2466,7 @@ public final class PayHouse {
         final long[] claims;
         final long[] waiting;
         final long[] shielded;
-        final Withholding[] withholdings;
+        private final Withholding[] withholdings;
         int withholdingCount;
         final long[] filings;
         final int[] filingCounts;
@@ -2440,6 +2492,20 @@ public final class PayHouse {
             if (authority >= 0 && authority < AUTHORITIES) {
                 owing[authority] += difference;
             }
+        }
+
+        /** Adds a withholding where there is room for it, and answers its number. */
+        int addWithholding(Withholding added) {
+            if (withholdingCount < WITHHOLDINGS_MAX) {
+                withholdings[withholdingCount] = added;
+                withholdingCount++;
+            }
+            return withholdingCount - 1;
+        }
+
+        /** Answers a withholding, or null. */
+        Withholding withholdingAt(int number) {
+            return number < 0 || number >= withholdingCount ? null : withholdings[number];
         }
 
         /** Makes the payments of a run for a person, and answers what was paid out. */
@@ -2474,7 +2540,7 @@ public final class PayHouse {
             long wanted = 0;
             for (int i = 0; i < withholdingCount; i++) {
                 Withholding next = withholdings[i];
-                if (next.person == person && next.priority == priority) {
+                if (next != null && next.isFor(person, priority)) {
                     wanted += next.wants();
                 }
             }
@@ -2485,7 +2551,7 @@ public final class PayHouse {
             long cents = taken;
             for (int i = 0; i < withholdingCount; i++) {
                 Withholding next = withholdings[i];
-                if (next.person == person && next.priority == priority) {
+                if (next != null && next.isFor(person, priority)) {
                     next.gets = next.wants() * taken / wanted;
                     cents -= next.gets;
                 }
@@ -2498,7 +2564,7 @@ public final class PayHouse {
             long left = cents;
             for (int i = 0; i < withholdingCount; i++) {
                 Withholding next = withholdings[i];
-                if (next.person == person && next.priority == priority) {
+                if (next != null && next.isFor(person, priority)) {
                     if (left > 0 && next.gets < next.wants()) {
                         next.gets++;
                         left--;
