@@ -475,9 +475,9 @@ public final class PayHouse {
             case 1:
                 return ledger.lineNames[ledger.lineOf(entry)];
             case 2:
-                return ledger.lineKinds[ledger.lineOf(entry)];
+                return ledger.kindOf(entry);
             default:
-                return ledger.differences[entry];
+                return ledger.differenceOf(entry);
         }
     }
 
@@ -497,7 +497,7 @@ public final class PayHouse {
         needName(name);
         needRange(kind, 0, NO_LINE - 1);
         int line = ledger.findLine(name, kind);
-        return line < 0 ? 0 : ledger.amounts[Ledger.placeOf(line, person, month)];
+        return ledger.amountOf(line, person, month);
     }
 
     public int again(int run, int person) throws IndexOutOfBoundsException {
@@ -535,10 +535,9 @@ public final class PayHouse {
             for (int rank = 0; rank < ledger.lineCount; rank++) {
                 int line = ledger.ranked[rank];
                 long due = worker.cellValue(month, worker.definitionOf(month, line));
-                int place = Ledger.placeOf(line, person, month);
-                long difference = due - ledger.amounts[place];
+                long difference = due - ledger.amountOf(line, person, month);
                 if (difference != 0) {
-                    ledger.amounts[place] = due;
+                    ledger.settle(line, person, month, due);
                     ledger.addEntry(month, line, difference);
                     books.bookEntry(ledger.lineKinds[line], difference);
                 }
@@ -579,8 +578,8 @@ public final class PayHouse {
     private int unmatched(Run slips, int person) {
         int count = 0;
         for (int entry = slips.starts[person]; entry < slips.starts[person + 1]; entry++) {
-            int key = ledger.keys[entry];
-            if (sums[key] == ledger.differences[entry]) {
+            int key = ledger.keyOf(entry);
+            if (sums[key] == ledger.differenceOf(entry)) {
                 sums[key] = 0;
             } else {
                 count++;
@@ -610,7 +609,7 @@ public final class PayHouse {
             return;
         }
         for (int entry = slips.starts[person]; entry < slips.starts[person + 1]; entry++) {
-            sums[ledger.keys[entry]] += factor * ledger.differences[entry];
+            sums[ledger.keyOf(entry)] += factor * ledger.differenceOf(entry);
         }
     }
 
@@ -814,8 +813,7 @@ public final class PayHouse {
         int count = 0;
         for (int line = 0; line < ledger.lineCount; line++) {
             for (int month = 0; month < MONTHS; month++) {
-                long amount = ledger.amounts[Ledger.placeOf(line, person, month)];
-                if (sums[month * LINES_MAX + line] != amount) {
+                if (sums[month * LINES_MAX + line] != ledger.amountOf(line, person, month)) {
                     count++;
                 }
             }
@@ -867,8 +865,8 @@ public final class PayHouse {
             return;
         }
         for (int entry = slips.starts[0]; entry < slips.starts[PERSONS_MAX]; entry++) {
-            if (authorityOf(ledger.lineKinds[ledger.lineOf(entry)]) == authority) {
-                sums[ledger.monthOf(entry)] += ledger.differences[entry];
+            if (authorityOf(ledger.kindOf(entry)) == authority) {
+                sums[ledger.monthOf(entry)] += ledger.differenceOf(entry);
             }
         }
     }
@@ -2293,11 +2291,11 @@ public final class PayHouse {
         // The lines' numbers in the order of names, then of kinds.
         final int[] ranked;
         // The settled amounts, 60 for each person of each line.
-        long[] amounts;
+        private long[] amounts;
         int count;
         // The month times LINES_MAX and the line's number.
-        int[] keys;
-        long[] differences;
+        private int[] keys;
+        private long[] differences;
 
         Ledger() {
             lineNames = new long[LINES_MAX];
@@ -2308,8 +2306,21 @@ public final class PayHouse {
             differences = new long[256];
         }
 
-        static int placeOf(int line, int person, int month) {
+        private static int placeOf(int line, int person, int month) {
             return (line * PERSONS_MAX + person) * MONTHS + month;
+        }
+
+        /** Answers a settled amount; 0 if there is no such line. */
+        long amountOf(int line, int person, int month) {
+            int place = placeOf(line, person, month);
+            return line < 0 || place < 0 || place >= amounts.length ? 0 : amounts[place];
+        }
+
+        void settle(int line, int person, int month, long amount) {
+            int place = placeOf(line, person, month);
+            if (line >= 0 && place >= 0 && place < amounts.length) {
+                amounts[place] = amount;
+            }
         }
 
         void addLines(Version version) {
@@ -2368,20 +2379,32 @@ public final class PayHouse {
             count++;
         }
 
+        int keyOf(int entry) {
+            return entry < 0 || entry >= count ? 0 : keys[entry];
+        }
+
         int monthOf(int entry) {
-            return keys[entry] / LINES_MAX;
+            return keyOf(entry) / LINES_MAX;
         }
 
         int lineOf(int entry) {
-            return keys[entry] % LINES_MAX;
+            return keyOf(entry) % LINES_MAX;
+        }
+
+        int kindOf(int entry) {
+            return lineKinds[lineOf(entry)];
+        }
+
+        long differenceOf(int entry) {
+            return entry < 0 || entry >= count ? 0 : differences[entry];
         }
 
         long netShare(int entry) {
-            int kind = lineKinds[lineOf(entry)];
+            int kind = kindOf(entry);
             if (kind == PAY_LINE) {
-                return differences[entry];
+                return differenceOf(entry);
             }
-            return kind < COST_LINE ? -differences[entry] : 0;
+            return kind < COST_LINE ? -differenceOf(entry) : 0;
         }
 
         long settledFor(int authority, int month) {
@@ -2389,7 +2412,7 @@ public final class PayHouse {
             for (int line = 0; line < lineCount; line++) {
                 if (authorityOf(lineKinds[line]) == authority) {
                     for (int person = 0; person < PERSONS_MAX; person++) {
-                        sum += amounts[placeOf(line, person, month)];
+                        sum += amountOf(line, person, month);
                     }
                 }
             }
@@ -2401,7 +2424,7 @@ public final class PayHouse {
             for (int line = 0; line < lineCount; line++) {
                 if (lineKinds[line] == PAY_LINE) {
                     for (int month = 0; month < MONTHS; month++) {
-                        sum += amounts[placeOf(line, person, month)];
+                        sum += amountOf(line, person, month);
                     }
                 }
             }

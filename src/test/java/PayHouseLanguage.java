@@ -8,6 +8,7 @@ import java.nio.file.Files;
 import java.nio.file.Path;
 import java.util.ArrayList;
 import java.util.Arrays;
+import java.util.HashSet;
 import java.util.List;
 import java.util.Map;
 import java.util.Set;
@@ -18,29 +19,15 @@ import java.util.regex.Pattern;
 
 /** What of LANGUAGE.md can be seen in the program's text and class files. Argument: the text's path. */
 public final class PayHouseLanguage {
-    private static final String[] FACE = {
-        "int type(long)", "int outputByte(int)", "int load(int)", "int faultKind()",
-        "int versionInForce(int,int)", "int definitions(int)", "long definedName(int,int)",
-        "int lineKind(int,long)", "int write(int)", "long value(int,long,int,int)",
-        "long valueIf(int,long,int,long,int,long)", "int explained(int,long,int)",
-        "int explainedMonth(int,long,int,int)", "long explainedName(int,long,int,int)", "int person()",
-        "int moment()", "int tell(int,long,int,int,int,int)", "int withdraw(int,long,int,int,int)",
-        "int takeBack(int)", "int tellText()", "long factAt(int,long,int,int)",
-        "int sourceAt(int,long,int,int)", "int pieces(int,long,int)", "int changes(int,long,int)",
-        "int firstChange(int,int,int)", "int presentMonth()", "int setReach(int)", "int run()",
-        "int correct(int)", "int entries(int,int)", "long entryAt(int,int,int,int)", "long net(int,int)",
-        "long lateNet(int,int)", "long settled(int,long,int,int)", "int again(int,int)",
-        "long setProtected(int,long)", "int withhold(int,int,long,long)", "long restOf(int)",
-        "long advance(int,long)", "long claim(int)", "long payout(int,int)", "long comeBack(int,int)",
-        "long owed(int)", "int file(int)", "long filed(int,int,int)", "long remit(int,long)",
-        "long balance(int)", "long checksum()", "double meanNet(int)", "float lateShare()", "int errors()"
-    };
     private static final String[] FORBIDDEN = {
         "\\btry\\b", "\\bcatch\\b", "\\bfinally\\b", "\\bsynchronized\\b", "\\bassert\\b", "->", "::",
         "Exact\\b", "\\bSystem\\.(?!arraycopy)", "\\bpackage\\b", "\\bString\\b", "\\bThread\\b", "\\bObject\\b",
         "\\bequals\\b(?!N)", "\\bhashCode\\b", "\\btoString\\b", "\\bHashMap\\b", "\\bnative\\b", "\\bvolatile\\b",
         "\"\\s*\\+", "\\+\\s*\"", "@"
     };
+
+    // The arrays that grow, and those that show what was written or is being read.
+    private static final Set<String> REPLACED = Set.of("amounts", "keys", "differences", "output", "bytes");
 
     private static int wrong = 0;
 
@@ -53,8 +40,9 @@ public final class PayHouseLanguage {
         exceptions(code);
         lengths(text);
         new Depths(code).check();
-        face();
+        face(text);
         classes();
+        references(new PayHouse(), "PayHouse", new HashSet<>());
         System.out.println(wrong == 0 ? "the program keeps to the language" : wrong + " faults of language");
         if (wrong != 0) {
             System.exit(1);
@@ -208,18 +196,60 @@ public final class PayHouseLanguage {
 
     }
 
-    private static void face() {
-        Set<String> due = new TreeSet<>(Arrays.asList(FACE));
+    // The document's declarations stand in the text word for word, in their order, and there are no others.
+    private static void face(String text) throws IOException {
+        String document = Files.readString(Path.of("../shared/DOC.md"), StandardCharsets.UTF_8);
+        String head = "public final class PayHouse {\n";
+        int from = document.indexOf(head) + head.length();
+        Set<String> due = new TreeSet<>();
+        String words = text.replaceAll("\\s+", " ");
+        int at = words.indexOf(head.trim());
+        for (String line : document.substring(from, document.indexOf("\n}", from)).split("\n")) {
+            String one = line.trim();
+            Matcher method = Pattern.compile("public (\\w+) (\\w+)\\((.*?)\\)(?: throws (.*))?;").matcher(one);
+            if (method.matches()) {
+                due.add(signature(method.group(1), method.group(2), method.group(3).replaceAll(" \\w+(,|$)", "$1"),
+                        method.group(4) == null ? "" : method.group(4)));
+            }
+            int next = words.indexOf(one.contains("(") ? one.replace(";", " {") : one, at + 1);
+            if (next < 0) {
+                fault("not in the text, or not in its place: " + one);
+            } else {
+                at = next;
+            }
+        }
+        if (due.size() != 51) {
+            fault("the document's face has " + due.size() + " methods");
+        }
+        members(due);
+    }
+
+    private static String signature(String type, String name, String parameters, String exceptions) {
+        String[] thrown = exceptions.split(", ");
+        Arrays.sort(thrown);
+        return type + " " + name + "(" + parameters + ") throws " + String.join(", ", thrown);
+    }
+
+    private static String signature(Method method) {
+        List<String> parameters = new ArrayList<>();
+        for (Class<?> type : method.getParameterTypes()) {
+            parameters.add(type.getSimpleName());
+        }
+        List<String> thrown = new ArrayList<>();
+        for (Class<?> type : method.getExceptionTypes()) {
+            thrown.add(type.getSimpleName());
+        }
+        return signature(method.getReturnType().getSimpleName(), method.getName(), String.join(", ", parameters),
+                String.join(", ", thrown));
+    }
+
+    private static void members(Set<String> due) {
         Set<String> got = new TreeSet<>();
         Set<String> publicNames = new TreeSet<>();
-        List<String> others = new ArrayList<>();
+        Set<String> others = new TreeSet<>();
         for (Method method : PayHouse.class.getDeclaredMethods()) {
             if (Modifier.isPublic(method.getModifiers())) {
-                StringBuilder one = new StringBuilder(method.getReturnType() + " " + method.getName() + "(");
-                for (Class<?> type : method.getParameterTypes()) {
-                    one.append(one.charAt(one.length() - 1) == '(' ? "" : ",").append(type);
-                }
-                got.add(one.append(")").toString());
+                got.add(signature(method));
                 publicNames.add(method.getName());
             } else {
                 others.add(method.getName());
@@ -228,13 +258,17 @@ public final class PayHouseLanguage {
                 }
             }
         }
+        for (Class<?> inside : PayHouse.class.getDeclaredClasses()) {
+            for (Method method : inside.getDeclaredMethods()) {
+                others.add(method.getName());
+            }
+        }
         if (!got.equals(due)) {
             fault("the face is " + got);
         }
-        for (String other : others) {
-            if (publicNames.contains(other)) {
-                fault("a private method bears the name " + other);
-            }
+        others.retainAll(publicNames);
+        if (!others.isEmpty()) {
+            fault("public names are borne by others: " + others);
         }
         for (Field field : PayHouse.class.getDeclaredFields()) {
             boolean none = field.getName().equals("NONE");
@@ -242,10 +276,49 @@ public final class PayHouseLanguage {
                 fault("field " + field);
             }
         }
+        if (PayHouse.NONE != -1) {
+            fault("NONE is " + PayHouse.NONE);
+        }
         Constructor<?>[] constructors = PayHouse.class.getDeclaredConstructors();
         if (constructors.length != 1 || !Modifier.isPublic(constructors[0].getModifiers())
                 || !Modifier.isFinal(PayHouse.class.getModifiers())) {
             fault("the constructor, or a class that is not final");
+        }
+    }
+
+    // A field that holds a reference holds one from the first, and is final, but for some arrays of numbers.
+    private static void references(Object holder, String where, Set<Object> seen) {
+        for (Field field : holder.getClass().getDeclaredFields()) {
+            Class<?> type = field.getType();
+            if (!type.isPrimitive() && !Modifier.isStatic(field.getModifiers())) {
+                String name = where + "." + field.getName();
+                Object held = held(holder, field);
+                if (held == null) {
+                    fault(name + " is null in a new object");
+                } else if (!type.isArray() && seen.add(held)) {
+                    references(held, name, seen);
+                }
+            }
+        }
+    }
+
+    private static void finals(Class<?> one) {
+        for (Field field : one.getDeclaredFields()) {
+            Class<?> type = field.getType();
+            boolean numbers = type.isArray() && type.getComponentType().isPrimitive();
+            if (!type.isPrimitive() && !Modifier.isFinal(field.getModifiers())
+                    && !(numbers && REPLACED.contains(field.getName()))) {
+                fault("not final: " + field);
+            }
+        }
+    }
+
+    private static Object held(Object holder, Field field) {
+        try {
+            field.setAccessible(true);
+            return field.get(holder);
+        } catch (IllegalAccessException e) {
+            throw new IllegalStateException(e);
         }
     }
 
@@ -256,6 +329,7 @@ public final class PayHouseLanguage {
             fault(all.size() + " classes");
         }
         for (Class<?> one : all) {
+            finals(one);
             int fields = 0;
             for (Field field : one.getDeclaredFields()) {
                 boolean constant = Modifier.isStatic(field.getModifiers());

@@ -1,3 +1,4 @@
+import java.lang.reflect.Field;
 import java.lang.reflect.InvocationTargetException;
 import java.lang.reflect.Method;
 import java.lang.reflect.Modifier;
@@ -36,9 +37,68 @@ public final class PayHouseThrows {
                 tell("errors() of the house " + seed);
             }
         }
+        missing(face);
         System.out.println(calls + " calls from all edges, " + wrong + " wrong");
         if (wrong != 0) {
             System.exit(1);
+        }
+    }
+
+    /** Houses in which one object of an array is missing: the class looks at what it takes from there. */
+    private static void missing(List<Method> face) {
+        int taken = 0;
+        for (int i = 0; takeAway(Bounds.standing(), i); i++) {
+            for (int seed = 0; seed < 4; seed++) {
+                PayHouse x = Bounds.standing();
+                takeAway(x, i);
+                Random random = new Random(seed * 1000L + i);
+                for (int call = 0; call < 400; call++) {
+                    play(x, face.get(random.nextInt(face.size())), random, -i);
+                }
+            }
+            taken++;
+        }
+        if (taken < 60) {
+            tell("only " + taken + " objects could be taken away");
+        }
+    }
+
+    private static boolean takeAway(PayHouse x, int number) {
+        List<Object[]> arrays = new ArrayList<>();
+        collect(x, arrays);
+        int left = number;
+        for (Object[] array : arrays) {
+            for (int i = 0; i < array.length; i++) {
+                if (array[i] != null && left-- == 0) {
+                    array[i] = null;
+                    return true;
+                }
+            }
+        }
+        return false;
+    }
+
+    private static void collect(Object holder, List<Object[]> arrays) {
+        for (Field field : holder.getClass().getDeclaredFields()) {
+            if (!field.getType().isPrimitive() && !Modifier.isStatic(field.getModifiers())) {
+                Object held = held(holder, field);
+                if (held instanceof Object[] array) {
+                    if (!arrays.contains(array)) {
+                        arrays.add(array);
+                    }
+                } else if (held != null && !held.getClass().isArray()) {
+                    collect(held, arrays);
+                }
+            }
+        }
+    }
+
+    private static Object held(Object holder, Field field) {
+        try {
+            field.setAccessible(true);
+            return field.get(holder);
+        } catch (IllegalAccessException e) {
+            throw new IllegalStateException(e);
         }
     }
 
