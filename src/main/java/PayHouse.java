@@ -1766,6 +1766,7 @@ public final class PayHouse {
         private final long[] cells;
         private final int[] cellStamps;
         private final int[] askedStamps;
+        private final long[] askedValues;
         private final int[] waitingCells;
         private final int[] waitingSteps;
         private int depth;
@@ -1778,6 +1779,7 @@ public final class PayHouse {
             cells = new long[CELLS];
             cellStamps = new int[CELLS];
             askedStamps = new int[MONTHS * FACTS_MAX];
+            askedValues = new long[MONTHS * FACTS_MAX];
             waitingCells = new int[CELLS];
             waitingSteps = new int[CELLS];
             stack = new long[STACK_MAX];
@@ -2004,14 +2006,19 @@ public final class PayHouse {
         }
 
         private long askFact(int month, int fact, long name) {
-            if (fact >= 0 && fact < FACTS_MAX) {
-                askedStamps[month * FACTS_MAX + fact] = stamp;
+            int asked = month * FACTS_MAX + fact;
+            if (fact < 0 || fact >= FACTS_MAX || asked < 0 || asked >= askedStamps.length) {
+                return 0;
             }
-            if (name == supposedFact && month == supposedMonth) {
-                return supposedValue;
+            if (askedStamps[asked] != stamp) {
+                askedStamps[asked] = stamp;
+                askedValues[asked] = supposedValue;
+                if (name != supposedFact || month != supposedMonth) {
+                    Statement giving = facts.giving(person, name, month, moment);
+                    askedValues[asked] = giving == null ? 0 : giving.told;
+                }
             }
-            Statement giving = facts.giving(person, name, month, moment);
-            return giving == null ? 0 : giving.told;
+            return askedValues[asked];
         }
 
         private static long bandsOf(long amount, Version version, int step) {
@@ -2112,8 +2119,8 @@ public final class PayHouse {
             this.to = to;
         }
 
-        boolean concerns(int ofPerson, long fact, int month) {
-            return name == fact && person == ofPerson && from <= month && month <= to;
+        boolean spans(int month) {
+            return from <= month && month <= to;
         }
 
         boolean countsAt(int moment) {
@@ -2161,8 +2168,8 @@ public final class PayHouse {
             int heard = 0;
             for (int i = count - 1; i >= 0; i--) {
                 Statement next = statements[i];
-                if (next != null && next.concerns(person, name, month) && next.countsAt(moment)
-                        && (heard >> next.source & 1) == 0) {
+                if (next != null && next.name == name && next.person == person && next.spans(month)
+                        && (heard >> next.source & 1) == 0 && next.countsAt(moment)) {
                     heard |= 1 << next.source;
                     if (next.tells && (best == null || next.source > best.source)) {
                         best = next;
