@@ -110,7 +110,6 @@ public final class PayHouse {
     private int versionCount;
     private final Run[] runs;
     private int runCount;
-    private final Tokens tokens;
     private final RuleReader reader;
     private final Facts facts;
     private final Worker worker;
@@ -125,10 +124,10 @@ public final class PayHouse {
         reach = MONTHS - 1;
         versions = new Version[VERSIONS_MAX];
         runs = new Run[RUNS_MAX];
-        tokens = new Tokens();
-        reader = new RuleReader(tokens);
-        facts = new Facts(tokens);
-        worker = new Worker(facts);
+        reader = new RuleReader();
+        Facts known = new Facts();
+        facts = known;
+        worker = new Worker(known);
         ledger = new Ledger();
         books = new Books();
         sums = new long[MONTHS * LINES_MAX];
@@ -164,13 +163,12 @@ public final class PayHouse {
         if (versionCount >= VERSIONS_MAX) {
             throw new IllegalStateException("there are 12 versions");
         }
-        tokens.read(text.bytes, text.length);
+        latestFault = reader.read(text.bytes, text.length);
         text.length = 0;
-        latestFault = reader.read();
         if (latestFault != 0) {
             return -3 - reader.place;
         }
-        tokens.writeTo(written);
+        reader.writeTo(written);
         now++;
         Version version = new Version(reader, written, versionCount, month, now);
         ledger.addLines(version);
@@ -331,9 +329,8 @@ public final class PayHouse {
     }
 
     public int tellText() {
-        tokens.read(text.bytes, text.length);
+        int count = facts.read(text.bytes, text.length, personCount);
         text.length = 0;
-        int count = facts.countStatements(personCount);
         if (count >= 0) {
             facts.makeStatements(count, now);
             now += count;
@@ -825,11 +822,10 @@ public final class PayHouse {
         if (version == null) {
             return false;
         }
-        tokens.read(version.text, version.text.length);
-        if (reader.read() != 0) {
+        if (reader.read(version.text, version.text.length) != 0) {
             return false;
         }
-        tokens.writeTo(written);
+        reader.writeTo(written);
         if (written.length != version.text.length) {
             return false;
         }
@@ -1194,8 +1190,8 @@ public final class PayHouse {
         private final long[] factNames;
         private final int[] hangsOn;
 
-        RuleReader(Tokens source) {
-            tokens = source;
+        RuleReader() {
+            tokens = new Tokens();
             names = new long[DEFINITIONS_MAX];
             places = new int[DEFINITIONS_MAX];
             kinds = new int[DEFINITIONS_MAX];
@@ -1210,8 +1206,9 @@ public final class PayHouse {
             hangsOn = new int[DEFINITIONS_MAX];
         }
 
-        /** Reads the tokens, and answers the kind of the fault, whose place is told by place, or 0. */
-        int read() {
+        /** Answers the kind of the text's fault, whose place is told by place, or 0. */
+        int read(byte[] text, int length) {
+            tokens.read(text, length);
             place = 0;
             secondPlace = NO_PLACE;
             open = 0;
@@ -1235,6 +1232,11 @@ public final class PayHouse {
                 return 3;
             }
             return 0;
+        }
+
+        /** Writes out what was read, which must be without a fault. */
+        void writeTo(Text target) {
+            tokens.writeTo(target);
         }
 
         private boolean readDefinition() {
@@ -1683,9 +1685,10 @@ public final class PayHouse {
             ops = Arrays.copyOf(rules.ops, rules.size);
             args = Arrays.copyOf(rules.args, rules.size);
             factNames = Arrays.copyOf(rules.factNames, rules.factCount);
-            factRanks = ranksOf(factNames);
-            definitionsOfLines = new int[LINES_MAX];
-            Arrays.fill(definitionsOfLines, -1);
+            factRanks = ranksOf(rules.factNames, rules.factCount);
+            int[] none = new int[LINES_MAX];
+            Arrays.fill(none, -1);
+            definitionsOfLines = none;
             text = Arrays.copyOf(written.bytes, written.length);
         }
 
@@ -1710,9 +1713,9 @@ public final class PayHouse {
             return -1;
         }
 
-        private static int[] ranksOf(long[] names) {
-            int[] ranks = new int[names.length];
-            for (int i = 0; i < names.length; i++) {
+        private static int[] ranksOf(long[] names, int count) {
+            int[] ranks = new int[Math.max(0, Math.min(count, names.length))];
+            for (int i = 0; i < ranks.length; i++) {
                 int rank = i;
                 while (rank > 0 && isAhead(names[i], names[ranks[rank - 1]])) {
                     ranks[rank] = ranks[rank - 1];
@@ -2137,8 +2140,8 @@ public final class PayHouse {
         private final Tokens tokens;
         private final Statement draft;
 
-        Facts(Tokens source) {
-            tokens = source;
+        Facts() {
+            tokens = new Tokens();
             statements = new Statement[STATEMENTS_MAX];
             draft = new Statement(0, 0, 0, 0, 0);
         }
@@ -2210,7 +2213,8 @@ public final class PayHouse {
         }
 
         /** Answers how many statements the text makes, or -3 less the place of its fault. */
-        int countStatements(int persons) {
+        int read(byte[] text, int length, int persons) {
+            tokens.read(text, length);
             int found = 0;
             for (int turn = 0; turn <= STATEMENTS_MAX && tokens.kind != END; turn++) {
                 if (made + found >= STATEMENTS_MAX || !readStatement(draft, persons)) {
@@ -2221,6 +2225,7 @@ public final class PayHouse {
             return found;
         }
 
+        /** Makes the statements of the text that was read, which must be without a fault. */
         void makeStatements(int number, int moment) {
             tokens.rewind();
             for (int i = 1; i <= number; i++) {
